@@ -9,6 +9,19 @@ import java.util.Random;
 public final class FuzzTest {
     private static final int RUNS = 400;
     private static final int CALLS = 512;
+    private static final int NONE = -1;
+    private static final List<String> TEXTS = List.of("law", "stories", "scrapers");
+    private static final List<String> FRACTIONS =
+            List.of("leaked", "older", "many", "whose", "ringed", "bent", "who");
+    private static final String[] BUILDING = {"paint", "paint", "paint", "over", "over", "over", "over", "skin", "skin",
+        "skin", "layer", "layer", "layer", "drip", "told", "told", "fingers"};
+    private static final String[][] FOCUS = {
+        {"follow", "plan", "behind", "skin", "layer", "image", "restore"},
+        {"like", "whose", "ringed", "due", "stumps", "bent", "told", "fingers", "fingers"},
+        {"weights", "tray", "write", "write", "write", "pour", "bent"},
+        {"bound", "clash", "ring", "above", "rests", "older", "say", "over", "over"},
+        {"times", "who", "alone", "say", "first", "spread"},
+        {"sort", "says", "span", "leaked", "drip", "trial", "age", "layer"}};
 
     private final Random random;
     private final RedHands wall = new RedHands();
@@ -20,7 +33,7 @@ public final class FuzzTest {
 
     private FuzzTest(long seed) {
         random = new Random(seed);
-        caves = 1 + random.nextInt(3);
+        caves = random.nextBoolean() ? 1 : 1 + random.nextInt(6);
         badPercent = random.nextInt(4) == 0 ? 10 : 2;
     }
 
@@ -47,22 +60,25 @@ public final class FuzzTest {
             }
         }
         methods.sort((a, b) -> a.getName().compareTo(b.getName()));
-        int building = random.nextInt(300);
+        int building = random.nextInt(350);
+        String[] focus = FOCUS[random.nextInt(FOCUS.length)];
         while (calls.size() < CALLS && same) {
-            if (calls.size() < building && random.nextInt(3) > 0) {
-                build();
-            } else if (random.nextInt(12) == 0) {
+            if (calls.size() < building && below(8) > 0) {
+                callOneOf(BUILDING);
+            } else if (below(12) == 0) {
                 text();
+            } else if (below(2) == 0) {
+                callOneOf(focus);
             } else {
                 Method m = methods.get(random.nextInt(methods.size()));
-                call(m.getName(), arguments(m));
+                if (!TEXTS.contains(m.getName()) || below(4) == 0) {
+                    call(m.getName(), arguments(m));
+                }
             }
         }
     }
 
-    private void build() throws Exception {
-        String[] names = {"paint", "paint", "over", "over", "skin", "skin", "layer", "layer", "layer", "drip", "told",
-            "told", "fingers"};
+    private void callOneOf(String[] names) throws Exception {
         String name = names[random.nextInt(names.length)];
         for (Method m : RedHands.class.getDeclaredMethods()) {
             if (m.getName().equals(name)) {
@@ -93,6 +109,15 @@ public final class FuzzTest {
         return from(0, Math.max(1, plain.count(0)) - 1);
     }
 
+    /** Of five paints drawn the first that is a hand, or the last. */
+    private int someHand() {
+        int paint = somePaint();
+        for (int i = 0; i < 5 && paint >= 0 && paint < plain.count(0) && plain.of(paint, 0) != 0; i++) {
+            paint = somePaint();
+        }
+        return paint;
+    }
+
     private int someSkin() {
         return from(0, Math.max(1, plain.count(1)) - 1);
     }
@@ -117,7 +142,7 @@ public final class FuzzTest {
     private Object[] arguments(Method m) {
         switch (m.getName()) {
             case "paint": return row(from(0, 3), from(0, caves - 1), below(3) == 0 ? from(0, 9) : from(0, 2));
-            case "fingers": return row(somePaint(), someLength(), someLength(), someLength(), someLength(), someLength());
+            case "fingers": return row(someHand(), someLength(), someLength(), someLength(), someLength(), someLength());
             case "over": return row(somePaint(), somePaint());
             case "skin": return row(from(0, caves - 1), from(0, 2), somePaint(), below(2) == 0 ? from(1, 99) : from(1, 9));
             case "layer": return row(someSkin(), someA(), someB(), someD());
@@ -137,11 +162,11 @@ public final class FuzzTest {
             case "older": return row(somePaint(), below(2) == 0 ? from(1, 400) : from(1, 20));
             case "many": return row(from(1, 9));
             case "told": return row(from(0, 3), told(), told(), told(), told(), told());
-            case "like": return row(somePaint(), from(-1, 4));
+            case "like": return row(someHand(), from(-1, 4));
             case "due":
-            case "bent": return row(somePaint(), from(0, 4));
+            case "bent": return row(someHand(), from(0, 4));
             case "whose":
-            case "ringed": return row(somePaint(), from(0, 3));
+            case "ringed": return row(someHand(), from(0, 3));
             case "weights": return new Object[] {random.nextBoolean(), from(0, 3)};
             case "times": return row(somePaint(), from(0, 2));
             case "who":
@@ -162,8 +187,8 @@ public final class FuzzTest {
             case "leaked": return row(someSkin());
             case "ring":
             case "rests":
-            case "say":
-            case "stumps": return row(somePaint());
+            case "say": return row(somePaint());
+            case "stumps": return row(someHand());
             case "upper":
             case "lower": return new Object[0];
             default: throw new IllegalStateException("no arguments for " + m.getName());
@@ -209,7 +234,7 @@ public final class FuzzTest {
             s.setLength(400);
         }
         int n = s.length();
-        call("law", row(0));
+        call(name, row(0));
         while (s.length() % 20 != 0) {
             s.append(' ');
         }
@@ -223,6 +248,16 @@ public final class FuzzTest {
         call(name, row(n));
         call("fault", row(0));
         call("fault", row(1));
+        if (name.equals("scrapers")) {
+            int grains = someGrains();
+            for (int i = NONE; i < 8; i++) {
+                call("follow", row(grains, i));
+            }
+            call("behind", row(grains));
+        } else {
+            callOneOf(FOCUS[name.equals("law") ? 5 : 4]);
+            callOneOf(FOCUS[name.equals("law") ? 5 : 4]);
+        }
     }
 
     private void spoil(StringBuilder s) {
@@ -266,7 +301,7 @@ public final class FuzzTest {
 
     private String rule() {
         String kind = new String[] {"over", "under", "beside"}[below(3)];
-        return "scrape " + kind + (below(3) == 0 ? "" : " if " + test(below(4) == 0 ? 10 : 2));
+        return "scrape " + kind + (below(3) == 0 ? "" : " if " + test(below(12) == 0 ? 10 : below(4)));
     }
 
     private String test(int depth) {
@@ -302,6 +337,9 @@ public final class FuzzTest {
         if (!got.equals(want)) {
             calls.add("   due is " + want);
             same = false;
+        } else if (FRACTIONS.contains(name)) {
+            call("upper", new Object[0]);
+            call("lower", new Object[0]);
         }
     }
 
