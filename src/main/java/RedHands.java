@@ -727,13 +727,10 @@ public final class RedHands {
         }
 
         int leakLower(int skin) {
-            int sort = skins.sorts[skin];
-            if (sort == SORT_TURNED) {
+            if (skins.sorts[skin] == SORT_TURNED) {
                 return 1;
             }
-            if (sort == SORT_EMPTY || sort == SORT_THIN) {
-                return 100;
-            }
+            // without LAYERS, or with THIN ones alone, there is one way: leak by 100
             return law.leak + (100 - law.leak) * skins.waysToLie(skin);
         }
 
@@ -1204,13 +1201,17 @@ public final class RedHands {
     /** THE LAW and the clock that goes by it. */
     private static final class Law {
         int lines;
-        int rate = 10;
-        int dirtLow = 20;
-        int dirtHigh = 60;
-        int thin = 50;
-        int off = 5;
-        int leak = 10;
-        int near = 6;
+        int rate;
+        int dirtLow;
+        int dirtHigh;
+        int thin;
+        int off;
+        int leak;
+        int near;
+
+        Law() {
+            reset();
+        }
 
         void copyFrom(Law other) {
             lines = other.lines;

@@ -106,6 +106,10 @@ public final class BoundTest {
         C.due("not so many", x.clash(3), RedHands.NONE);
         C.due("-2", x.clash(-2), RedHands.NONE);
         C.due("far", x.clash(Integer.MAX_VALUE), RedHands.NONE);
+        Checks.aged(x, OVER, 0, 2);
+        Checks.aged(x, UNDER, 0, 1);
+        C.due("the first of four", x.clash(0), 0);
+        C.due("the last of four", x.clash(3), 5);
     }
 
     private static void ring() {

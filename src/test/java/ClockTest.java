@@ -58,6 +58,16 @@ public final class ClockTest {
         C.due("by another law", x.span(0, 0, false), 11);
         C.due("by another law, most", x.span(0, 0, true), 11);
         C.due("THIN no more", x.span(0, 1, true), 400);
+        for (String line : new String[] {"rate 11;", "dirt 0 to 60;", "dirt 20 to 99;", "off 30;"}) {
+            Checks.law(x, "");
+            int was = 1000 * x.span(0, 0, false) + x.span(0, 0, true);
+            Checks.law(x, line);
+            C.due("another " + line, 1000 * x.span(0, 0, false) + x.span(0, 0, true) == was, false);
+        }
+        Checks.law(x, "thin 51;");
+        C.due("another thin", x.span(0, 2, true), RedHands.NONE);
+        Checks.law(x, "leak 51;");
+        C.due("as before", x.span(0, 2, true), 0);
         Checks.law(x, "thin 999; rate 20;");
         C.due("rate 20", x.span(0, 0, true), x.age(105, 1000, 100, 20));
         C.due("b 50 is THIN now", x.span(0, 2, false), RedHands.NONE);
@@ -158,6 +168,8 @@ public final class ClockTest {
         C.due("no more than 9999", x.drip(1, 0, 0, 9999, 99, 1), 9999);
         // -1103502900 is 3191464396 without a sign, its higher half 48697, of 11 that leaves 0
         C.due("a seed below 0", x.drip(1, 1, 1000, 0, 0, -1), 10 - 5 + 0);
+        C.due("none at all", x.drip(1, 0, 1000, 0, 99, 5), 0);
+        draws();
         C.fails("no SKIN", x, Checks.NSE, () -> x.drip(2, -1, 0, 0, 0, 0));
         C.fails("AGE -1", x, Checks.IAE, () -> x.drip(1, -1, 0, 0, 0, 0));
         C.fails("AGE 401", x, Checks.IAE, () -> x.drip(1, 401, 0, 0, 0, 0));
@@ -165,6 +177,25 @@ public final class ClockTest {
         C.fails("d", x, Checks.IAE, () -> x.drip(1, 0, 0, -1, 0, 0));
         C.fails("share", x, Checks.IAE, () -> x.drip(1, 0, 0, 0, 100, 0));
         C.fails("AGE of a full SKIN", x, Checks.IAE, () -> x.drip(0, 401, 0, 0, 0, 0));
+    }
+
+    /** 100 by off 50, drawn by seeds for which x is just at, or just below, another higher half. */
+    private static void draws() {
+        RedHands x = skin(0);
+        Checks.law(x, "off 50;");
+        int[] seeds = new int[4];
+        int found = 0;
+        for (int seed = 1; found < 4; seed++) {
+            int low = 1103515245 * seed + 12345 & 0xffff;
+            if (low == (found % 2 == 0 ? 0 : 0xffff)) {
+                seeds[found] = seed;
+                found++;
+            }
+        }
+        for (int seed : seeds) {
+            long draw = (1103515245L * seed + 12345 & 0xffffffffL) / 65536;
+            C.due("seed " + seed, x.drip(0, 0, 0, 100, 99, seed), 99 - 49 + draw % 99);
+        }
     }
 
     private static void trial() {
@@ -187,6 +218,8 @@ public final class ClockTest {
         C.due("as drips one by one", x.trial(30, 1000, 100, 45, 30), each);
         C.due("some are, some aren't", each > 0 && each < 30, true);
         Checks.law(x, "off 0;");
+        // 20 counts are there at once, by the dirt alone: GREATEST is 0
+        C.due("just below the AGE", x.trial(1, 50, 100, 20, 1), 0);
         C.due("AGE 400 of what never comes", x.trial(400, 1000, 0, 0, 7), 7);
         C.fails("AGE", x, Checks.IAE, () -> x.trial(401, 0, 0, 0, 1));
         C.fails("AGE -1", x, Checks.IAE, () -> x.trial(-1, 0, 0, 0, 1));

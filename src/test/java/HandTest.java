@@ -123,6 +123,7 @@ public final class HandTest {
         C.fraction("longer: 0 of 1", x, 0, 1);
         C.due("SORT 2", x.ringed(0, 2), false);
         C.fraction("SORT 2 has none", x, 0, 0);
+        C.due("SORT 3", x.ringed(0, 3), false);
         x.fingers(0, 0, 60, 0, 60, 0);
         x.ringed(0, 0);
         C.fraction("as long: 1 of 4", x, 1, 4);
@@ -148,6 +149,8 @@ public final class HandTest {
         C.due("none is LIKE it but for the thumb", x.due(0, 0), RedHands.NONE);
         x.told(1, 50, 64, 50, 50, 50);
         C.due("of three", x.due(0, 1), 63);
+        x.fingers(0, 50, 60, 50, 50, 0);
+        C.due("the little one", x.due(0, 4), 50);
         asks(x, x::due, -1, 5);
     }
 
@@ -208,8 +211,12 @@ public final class HandTest {
         C.fails("TRAY 4", x, Checks.NSE, () -> x.weights(true, 4));
         C.fails("TRAY -1", x, Checks.NSE, () -> x.weights(false, -1));
         C.fails("MISSING", x, Checks.ISE, () -> x.weights(false, 2));
-        x.bent(0, 0);
-        C.fraction("1 each at first", x, 1, 2);
+        for (int part = 0; part < 5; part++) {
+            RedHands y = hand(50, 50, 50, 50, 10 * part);
+            y.told(0, 50, 50, 50, 50, 99);
+            y.bent(0, 4);
+            C.fraction("1 each at first, PART " + part, y, 1, 2);
+        }
         long[][] bad = {{1, 2, 3, 4}, {1, 2, 3, 4, 5, 6}, {}, {3, 1, 1, 1, 100}, {3, -1, 1, 1, 1}, {1L << 32, 1, 1, 1, 1}};
         for (long[] row : bad) {
             Checks.tray(x, 1, 3, row);

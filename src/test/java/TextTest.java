@@ -93,13 +93,17 @@ public final class TextTest {
         C.due("LINES", x.count(4), 4);
         C.due("only the first bytes", x.law(Checks.feed(x, "rate 9;rate 0;") - 7), 1);
         C.due("rate 9", x.count(7), 9);
+        C.due("cut within a number", x.law(Checks.feed(x, "rate 12;") - 2), -12);
+        C.due("the end is there", x.fault(1), 6);
+        C.due("cut within a word", x.law(Checks.feed(x, "off 5;rate 5;") - 5), -12);
+        C.due("it is no word of a LINE", x.fault(1), 6);
         Reading law = Checks::law;
         taken(law, "", 0);
         taken(law, " \n ", 0);
         taken(law, "rate 099 ;\n\n off\n0;", 2);
         taken(law, "rate9;dirt1to2;", 2);
         taken(law, again("thin 0;", 12), 12);
-        String[] low = {"rate 0;", "rate 100;", "off 51;", "leak 0;", "near 51;"};
+        String[] low = {"rate 0;", "rate 100;", "off 51;", "leak 0;", "leak 100;", "near 51;"};
         for (String s : low) {
             refused(law, s, 3, s.indexOf(' ') + 1);
         }
@@ -115,6 +119,12 @@ public final class TextTest {
         refused(law, "rates 5;", 2, 0);
         refused(law, "people 1 in 1 to 2;", 2, 0);
         refused(law, "5;", 2, 0);
+        refused(law, "z 5;", 2, 0);
+        refused(law, "a", 2, 0);
+        refused(law, "{", 1, 0);
+        refused(law, "`", 1, 0);
+        refused(law, "rate /;", 1, 5);
+        refused(law, "rate :;", 1, 5);
         refused(law, ";", 2, 0);
         refused(law, "rate ( ;", 2, 5);
         refused(law, "rate 5 6;", 2, 7);

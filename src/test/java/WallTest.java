@@ -90,7 +90,9 @@ public final class WallTest {
             x.paint(1, i == 11 ? 1 : 0, 0);
         }
         C.fails("over no PAINT", x, Checks.NSE, () -> x.over(0, 12));
-        C.fails("no PAINT over", x, Checks.NSE, () -> x.over(-1, -1));
+        C.fails("no PAINT over", x, Checks.NSE, () -> x.over(12, 0));
+        C.fails("PAINT -1 over", x, Checks.NSE, () -> x.over(-1, 0));
+        C.fails("PAINT -1 over itself", x, Checks.NSE, () -> x.over(-1, -1));
         C.fails("over itself", x, Checks.IAE, () -> x.over(3, 3));
         C.fails("over one of another CAVE", x, Checks.IAE, () -> x.over(0, 11));
         C.due("over(0, 1)", x.over(0, 1), true);
@@ -201,6 +203,14 @@ public final class WallTest {
         C.due("leaves the 100", x.weights(true, 3), false);
         x.tray(3, 3, 5);
         C.due("0s again", x.weights(true, 3), true);
+        Checks.tray(x, 3, 3, 9, 9, 9, 9, 9, 9);
+        x.tray(3, 2, 6);
+        x.skin(0, 0, 0, 1);
+        Checks.law(x, "thin 1;");
+        C.due("LAYERS of 0s", x.pour(0, 3), 2);
+        C.due("both THIN", x.sort(0), 1);
+        Checks.law(x, "thin 0;");
+        C.due("both of age 0", x.span(0, 0, true) == 0 && x.span(0, 1, true) == 0, true);
     }
 
     private static void write() {
@@ -330,6 +340,91 @@ public final class WallTest {
         C.due("restore(1)", Checks.shot(x).equals(later), true);
         C.fails("IMAGE 2", x, Checks.ISE, () -> x.restore(2));
         restoreLeaves(x);
+        restoreOther();
+    }
+
+    /** Two walls of which nothing is alike, now one, now the other. */
+    private static void restoreOther() {
+        // a bare wall made an IMAGE first, so that the rows of one wall are written over those of the other
+        RedHands z = new RedHands();
+        z.image(0);
+        fill(z);
+        z.image(1);
+        String filled = both(z);
+        z.restore(0);
+        fillOther(z);
+        z.image(2);
+        String otherwise = both(z);
+        z.restore(1);
+        C.due("the one", both(z).equals(filled), true);
+        z.restore(2);
+        C.due("the other", both(z).equals(otherwise), true);
+        C.due("they differ", filled.equals(otherwise), false);
+        z.restore(0);
+        C.due("a bare wall", z.count(0) + z.count(1) + z.count(2) + z.count(3) + z.count(14), 0);
+    }
+
+    /** What can be seen, with what only FRACTIONS, other laws and other rows show. */
+    private static String both(RedHands x) {
+        x.many(1);
+        StringBuilder s = new StringBuilder(Checks.shot(x));
+        for (int sort = 0; sort < 4; sort++) {
+            s.append(x.whose(0, sort)).append(x.upper()).append('/').append(x.lower()).append(' ');
+            s.append(x.ringed(0, sort)).append(x.upper()).append('/').append(x.lower()).append(' ');
+        }
+        for (int finger = 0; finger < 5; finger++) {
+            s.append(x.bent(0, finger)).append(x.upper()).append('/').append(x.lower()).append(' ');
+        }
+        for (int grains = 0; grains < 40; grains++) {
+            s.append(x.plan(grains, 0)).append(' ').append(x.follow(grains, 0)).append(' ');
+        }
+        for (int people = 0; people < 6; people++) {
+            s.append(x.alone(1, people)).append(' ');
+        }
+        return s.toString();
+    }
+
+    private static void fill(RedHands x) {
+        x.paint(0, 0, 0);
+        x.paint(2, 0, 3);
+        x.paint(3, 0, 4);
+        x.fingers(0, 50, 20, 55, 55, 55);
+        x.over(1, 0);
+        x.over(2, 1);
+        x.told(0, 50, 52, 55, 55, 55);
+        x.told(1, 50, 52, 55, 56, 57);
+        x.skin(0, 1, 1, 5);
+        x.skin(0, 2, 0, 6);
+        x.skin(0, 2, 2, 7);
+        x.layer(0, 300, 1000, 10);
+        Checks.stories(x, "beast 3 in 1 to 50;people 0 in 1 to 9;people 1 in 40 to 50;");
+        Checks.scrapers(x, "scrape under if cave 0 and hand;scrape under;");
+        Checks.tray(x, 0, 0, 9, 9, 9, 9, 9);
+        x.weights(false, 0);
+        Checks.tray(x, 0, 0, 2, 2, 2, 2, 2);
+        x.weights(true, 0);
+    }
+
+    private static void fillOther(RedHands x) {
+        x.paint(0, 5, 1);
+        x.paint(1, 5, 2);
+        x.paint(1, 5, 9);
+        x.fingers(0, 30, 30, 30, 10, 30);
+        x.over(0, 1);
+        x.over(1, 2);
+        x.told(3, 30, 30, 30, 31, 30);
+        x.told(2, 30, 34, 30, 31, 30);
+        x.skin(5, 2, 2, 15);
+        x.skin(5, 1, 1, 16);
+        x.skin(5, 0, 0, 17);
+        x.layer(0, 200, 800, 20);
+        Checks.law(x, "off 1; near 9;");
+        Checks.stories(x, "people 5 in 3 to 7;");
+        Checks.scrapers(x, "scrape over if cheap 16 and disc;scrape beside if not cave 4;");
+        Checks.tray(x, 0, 0, 1, 2, 3, 4, 5);
+        x.weights(false, 0);
+        Checks.tray(x, 0, 0, 9, 8, 7, 6, 5);
+        x.weights(true, 0);
     }
 
     /** The tape, the FAULT, the FRACTION and TRAYS are not of an IMAGE. */

@@ -74,10 +74,14 @@ public final class WhenTest {
         Checks.aged(x, OVER, 0, 7);
         x.who(0, 2);
         C.fraction("within bounds, 2 of 5", x, 2, 5);
+        x.paint(1, 0, 0);
+        Checks.aged(x, UNDER, 2, 7);
+        x.who(2, 5);
+        C.fraction("up to MOST, 3 of 10", x, 3, 10);
         Checks.aged(x, OVER, 0, 302);
         C.due("too late for all", x.who(0, 0), false);
         C.fraction("too late for all", x, 0, 0);
-        C.fails("no PAINT", x, Checks.NSE, () -> x.who(2, 9));
+        C.fails("no PAINT", x, Checks.NSE, () -> x.who(3, 9));
         C.fails("people 6", x, Checks.IAE, () -> x.who(0, 6));
         C.fails("people -1", x, Checks.IAE, () -> x.who(0, -1));
     }
@@ -94,6 +98,8 @@ public final class WhenTest {
         C.due("a beast", x.alone(1, 0), 2);
         Checks.aged(x, OVER, 0, 4);
         C.due("within bounds", x.alone(0, 0), 1);
+        Checks.aged(x, UNDER, 0, 7);
+        C.due("up to MOST", x.alone(0, 5), 1);
         C.fails("no PAINT", x, Checks.NSE, () -> x.alone(2, 9));
         C.fails("people 6", x, Checks.IAE, () -> x.alone(0, 6));
         C.fails("people -1", x, Checks.IAE, () -> x.alone(0, -1));
@@ -111,6 +117,12 @@ public final class WhenTest {
         C.due("two CAVES", x.spread(7), 2);
         C.due("one", x.spread(9), 1);
         C.due("another WHAT", x.spread(0), 0);
+        RedHands y = wall();
+        for (int cave = 0; cave < 6; cave++) {
+            y.paint(3, cave, 0);
+        }
+        C.due("all CAVES", y.spread(0), 6);
+        C.due("all CAVES, the first", y.first(0), 0);
         C.fails("WHAT 10", x, Checks.IAE, () -> x.spread(10));
         C.fails("WHAT -1", x, Checks.IAE, () -> x.spread(-1));
     }
@@ -133,6 +145,7 @@ public final class WhenTest {
         x.over(0, 1);
         C.due("by what lies over it", x.first(7), 1);
         C.due("another WHAT", x.first(6), 4);
+        C.due("WHAT 9", x.first(9), RedHands.NONE);
         C.fails("WHAT 10", x, Checks.IAE, () -> x.first(10));
         C.fails("WHAT -1", x, Checks.IAE, () -> x.first(-1));
     }
@@ -154,6 +167,11 @@ public final class WhenTest {
         x.skin(0, UNDER, 0, 4);
         x.skin(0, OVER, 1, 4);
         x.skin(0, UNDER, 2, 8);
+        RedHands y = wall();
+        y.paint(1, 0, 0);
+        y.skin(0, OVER, 0, 3);
+        y.skin(0, UNDER, 0, 3);
+        planOf("the first alone", y, 9, 1, 1, 3);
         planOf("nothing to spend", x, 0, 0, 0, 0);
         planOf("too little", x, 3, 0, 0, 0);
         planOf("one of two like ones", x, 7, 4, 1, 4);
@@ -218,6 +236,13 @@ public final class WhenTest {
         row("the first RULE for which there is one", x, 999, 4, 1);
         Checks.scrapers(x, "scrape over if bare and cheap 4;scrape under;scrape over if bare;");
         row("again from the first RULE", x, 999, 1, 2, 0);
+        RedHands y = wall();
+        int[] all = new int[30];
+        for (int i = 0; i < 30; i++) {
+            all[i] = y.skin(0, BESIDE, 0, 1);
+        }
+        Checks.scrapers(y, "scrape beside;");
+        row("all thirty", y, 30, all);
         C.due("i -2", x.follow(999, -2), RedHands.NONE);
         C.due("i far", x.follow(999, Integer.MAX_VALUE), RedHands.NONE);
         C.fails("GRAINS -1", x, Checks.IAE, () -> x.follow(-1, 0));
@@ -262,12 +287,27 @@ public final class WhenTest {
         rule(x, "scrape over if disc and cave 1 or sign and cave 3", 2, 6);
         rule(x, "scrape over if (disc or (sign and (cave 2 or not (cheap 5))))", 2, 6);
         rule(x, "scrape under");
+        openPaints();
         // bare looks at what is in the row, too
         x.skin(1, UNDER, 1, 1);
         x.skin(1, OVER, 1, 2);
         rule(x, "scrape over if disc and bare", 11);
         Checks.scrapers(x, "scrape under;scrape over if disc and bare;");
         row("another one of its PAINT is in the row", x, 999, 10);
+    }
+
+    private static void openPaints() {
+        RedHands x = wall();
+        x.paint(0, 0, 0);
+        x.paint(0, 0, 0);
+        x.skin(0, OVER, 0, 1);
+        rule(x, "scrape over if open", 0);
+        Checks.aged(x, UNDER, 0, 399);
+        rule(x, "scrape over if open");
+        x.skin(0, OVER, 1, 1);
+        rule(x, "scrape over if open", 2);
+        Checks.aged(x, OVER, 1, 1);
+        rule(x, "scrape over if open");
     }
 
     private static void behind() {
@@ -281,6 +321,7 @@ public final class WhenTest {
         x.skin(0, OVER, 1, 5);
         x.skin(0, UNDER, 2, 5);
         C.due("no RULES", x.behind(10), 2);
+        C.due("no GRAINS", x.behind(0), 0);
         Checks.scrapers(x, "scrape over if not cheap 5;scrape over;scrape under;");
         C.due("one fewer", x.behind(10), 1);
         C.due("none fewer", x.behind(999), 0);
@@ -311,6 +352,9 @@ public final class WhenTest {
         C.due("5 both", x.say(3), 5);
         Checks.stories(x, "people 0 in 30 to 60;people 1 in 0 to 49;");
         C.due("4 one people ALONE", x.say(3), 4);
+        Checks.stories(x, "people 0 in 30 to 60;people 1 in 60 to 60;");
+        C.due("not ALONE at MOST", x.say(3), 5);
+        Checks.stories(x, "people 0 in 30 to 60;people 1 in 0 to 49;");
         C.due("not in all TIMES", x.say(2), 6);
         Checks.stories(x, "people 0 in 30 to 60;people 1 in 0 to 55;");
         C.due("not ALONE in all", x.say(3), 5);
@@ -323,9 +367,15 @@ public final class WhenTest {
         C.due("LEAST is the latest", x.say(2), 6);
         Checks.stories(x, "beast 1 in 0 to 10;");
         C.due("no peoples are told", x.say(3), 5);
-        Checks.aged(x, OVER, 4, 9);
+        Checks.aged(x, OVER, 4, 8);
         Checks.aged(x, UNDER, 4, 8);
+        C.due("LEAST is MOST", x.say(4), 5);
+        Checks.aged(x, OVER, 4, 9);
         C.due("1 CLASH", x.say(4), 1);
+        Checks.aged(x, OVER, 7, 1);
+        C.due("6 LEAST is 1", x.say(7), 6);
+        Checks.aged(x, UNDER, 7, 399);
+        C.due("5 MOST is 399", x.say(7), 5);
         x.over(4, 5);
         x.over(5, 6);
         x.over(6, 4);
