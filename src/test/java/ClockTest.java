@@ -31,6 +31,9 @@ public final class ClockTest {
         C.due("fast", x.age(9000, 9999, 0, 0), 23);
         C.due("greatest numbers: its last steps are cut to 0", x.age(9999, 9999, 9999, 99), 400);
         C.due("more than all", x.age(9999, 9998, 0, 0), 400);
+        Checks.law(x, "rate 1;");
+        // 990 at first, then one more each time
+        C.due("one by one", x.age(1, 2, 99, 1), 10);
         C.fails("a", x, Checks.IAE, () -> x.age(10000, 0, 0, 0));
         C.fails("b", x, Checks.IAE, () -> x.age(0, 10000, 0, 0));
         C.fails("d", x, Checks.IAE, () -> x.age(0, 0, -1, 0));
@@ -169,8 +172,12 @@ public final class ClockTest {
         // -1103502900 is 3191464396 without a sign, its higher half 48697, of 11 that leaves 0
         C.due("a seed below 0", x.drip(1, 1, 1000, 0, 0, -1), 10 - 5 + 0);
         C.due("none at all", x.drip(1, 0, 1000, 0, 99, 5), 0);
+        Checks.law(x, "rate 1;");
+        C.due("one by one", x.drip(1, 10, 2, 99, 1, 5), 1);
+        x.skin(0, 0, 0, 1);
+        C.due("one time less", x.drip(2, 9, 2, 99, 1, 5), 0);
         draws();
-        C.fails("no SKIN", x, Checks.NSE, () -> x.drip(2, -1, 0, 0, 0, 0));
+        C.fails("no SKIN", x, Checks.NSE, () -> x.drip(3, -1, 0, 0, 0, 0));
         C.fails("AGE -1", x, Checks.IAE, () -> x.drip(1, -1, 0, 0, 0, 0));
         C.fails("AGE 401", x, Checks.IAE, () -> x.drip(1, 401, 0, 0, 0, 0));
         C.fails("b", x, Checks.IAE, () -> x.drip(1, 0, 10000, 0, 0, 0));

@@ -357,6 +357,11 @@ public final class WallTest {
         String otherwise = both(z);
         z.restore(1);
         C.due("the one", both(z).equals(filled), true);
+        RedHands same = new RedHands();
+        fill(same);
+        Checks.law(same, "rate 30;");
+        Checks.law(z, "rate 30;");
+        C.due("the one by another law", both(z).equals(both(same)), true);
         z.restore(2);
         C.due("the other", both(z).equals(otherwise), true);
         C.due("they differ", filled.equals(otherwise), false);
@@ -397,8 +402,10 @@ public final class WallTest {
         x.skin(0, 2, 0, 6);
         x.skin(0, 2, 2, 7);
         x.layer(0, 300, 1000, 10);
+        x.skin(0, 2, 0, 8);
+        x.layer(3, 700, 1000, 10);
         Checks.stories(x, "beast 3 in 1 to 50;people 0 in 1 to 9;people 1 in 40 to 50;");
-        Checks.scrapers(x, "scrape under if cave 0 and hand;scrape under;");
+        Checks.scrapers(x, "scrape under if cave 0;");
         Checks.tray(x, 0, 0, 9, 9, 9, 9, 9);
         x.weights(false, 0);
         Checks.tray(x, 0, 0, 2, 2, 2, 2, 2);
@@ -418,9 +425,11 @@ public final class WallTest {
         x.skin(5, 1, 1, 16);
         x.skin(5, 0, 0, 17);
         x.layer(0, 200, 800, 20);
+        x.skin(5, 1, 2, 18);
+        x.layer(3, 100, 900, 30);
         Checks.law(x, "off 1; near 9;");
         Checks.stories(x, "people 5 in 3 to 7;");
-        Checks.scrapers(x, "scrape over if cheap 16 and disc;scrape beside if not cave 4;");
+        Checks.scrapers(x, "scrape over if cheap 16 and disc;scrape beside if cave 5;");
         Checks.tray(x, 0, 0, 1, 2, 3, 4, 5);
         x.weights(false, 0);
         Checks.tray(x, 0, 0, 9, 8, 7, 6, 5);

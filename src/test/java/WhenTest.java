@@ -172,6 +172,8 @@ public final class WhenTest {
         y.skin(0, OVER, 0, 3);
         y.skin(0, UNDER, 0, 3);
         planOf("the first alone", y, 9, 1, 1, 3);
+        y.layer(0, 1, 1, 1);
+        planOf("the first has LAYERS", y, 9, 0, 1, 0);
         planOf("nothing to spend", x, 0, 0, 0, 0);
         planOf("too little", x, 3, 0, 0, 0);
         planOf("one of two like ones", x, 7, 4, 1, 4);
