@@ -66,8 +66,8 @@ public final class BoundTest {
         x.layer(turned, Checks.countFor(60), 9999, 0);
         C.due("TURNED", x.sort(turned), 2);
         bounds(x, 0, 40, 70);
-        C.fails("no PAINT", x, Checks.NSE, () -> x.bound(4, true));
-        C.fails("PAINT -1", x, Checks.NSE, () -> x.bound(-1, false));
+        C.fails("no PAINT", Checks.NSE, () -> x.bound(4, true));
+        C.fails("PAINT -1", Checks.NSE, () -> x.bound(-1, false));
     }
 
     private static void boundInRings() {
@@ -127,8 +127,8 @@ public final class BoundTest {
         x.over(3, 4);
         C.due("below it", x.ring(4), false);
         C.due("alone", x.ring(5), false);
-        C.fails("no PAINT", x, Checks.NSE, () -> x.ring(6));
-        C.fails("PAINT -1", x, Checks.NSE, () -> x.ring(-1));
+        C.fails("no PAINT", Checks.NSE, () -> x.ring(6));
+        C.fails("PAINT -1", Checks.NSE, () -> x.ring(-1));
     }
 
     private static void above() {
@@ -145,8 +145,8 @@ public final class BoundTest {
         x.over(0, 3);
         C.due("itself in a RING", x.above(1, 1), true);
         C.due("the other way in a RING", x.above(0, 4), true);
-        C.fails("no upper", x, Checks.NSE, () -> x.above(5, 0));
-        C.fails("no lower", x, Checks.NSE, () -> x.above(0, -1));
+        C.fails("no upper", Checks.NSE, () -> x.above(5, 0));
+        C.fails("no lower", Checks.NSE, () -> x.above(0, -1));
     }
 
     private static void rests() {
@@ -171,8 +171,8 @@ public final class BoundTest {
         Checks.aged(y, OVER, 0, 0);
         Checks.aged(y, UNDER, 0, 400);
         C.due("SKINS that bound nothing", y.rests(0), 0);
-        C.fails("no PAINT", x, Checks.NSE, () -> x.rests(3));
-        C.fails("PAINT -1", x, Checks.NSE, () -> x.rests(-1));
+        C.fails("no PAINT", Checks.NSE, () -> x.rests(3));
+        C.fails("PAINT -1", Checks.NSE, () -> x.rests(-1));
     }
 
     private static void older() {
@@ -200,9 +200,9 @@ public final class BoundTest {
         x.layer(1, Checks.countFor(60), 9999, 0);
         x.older(1, 60);
         C.fraction("a SKIN of two", x, 18, 19);
-        C.fails("no PAINT", x, Checks.NSE, () -> x.older(3, 0));
-        C.fails("t 0", x, Checks.IAE, () -> x.older(0, 0));
-        C.fails("t 401", x, Checks.IAE, () -> x.older(0, 401));
+        C.fails("no PAINT", Checks.NSE, () -> x.older(3, 0));
+        C.fails("t 0", Checks.IAE, () -> x.older(0, 0));
+        C.fails("t 401", Checks.IAE, () -> x.older(0, 401));
     }
 
     /** Only the five that SAY most count; of like ones those with the least numbers. */
@@ -256,8 +256,8 @@ public final class BoundTest {
         Checks.law(x, "leak 50;");
         x.many(2);
         C.fraction("2 by leak 50", x, 3, 4);
-        C.fails("n 0", x, Checks.IAE, () -> x.many(0));
-        C.fails("n 10", x, Checks.IAE, () -> x.many(10));
+        C.fails("n 0", Checks.IAE, () -> x.many(0));
+        C.fails("n 10", Checks.IAE, () -> x.many(10));
     }
 
     private static void fractions() {

@@ -34,12 +34,12 @@ public final class ClockTest {
         Checks.law(x, "rate 1;");
         // 990 at first, then one more each time
         C.due("one by one", x.age(1, 2, 99, 1), 10);
-        C.fails("a", x, Checks.IAE, () -> x.age(10000, 0, 0, 0));
-        C.fails("b", x, Checks.IAE, () -> x.age(0, 10000, 0, 0));
-        C.fails("d", x, Checks.IAE, () -> x.age(0, 0, -1, 0));
-        C.fails("share 100", x, Checks.IAE, () -> x.age(0, 0, 0, 100));
-        C.fails("share -1", x, Checks.IAE, () -> x.age(0, 0, 0, -1));
-        C.fails("a -1", x, Checks.IAE, () -> x.age(-1, 0, 0, 0));
+        C.fails("a", Checks.IAE, () -> x.age(10000, 0, 0, 0));
+        C.fails("b", Checks.IAE, () -> x.age(0, 10000, 0, 0));
+        C.fails("d", Checks.IAE, () -> x.age(0, 0, -1, 0));
+        C.fails("share 100", Checks.IAE, () -> x.age(0, 0, 0, 100));
+        C.fails("share -1", Checks.IAE, () -> x.age(0, 0, 0, -1));
+        C.fails("a -1", Checks.IAE, () -> x.age(-1, 0, 0, 0));
     }
 
     private static void span() {
@@ -74,10 +74,10 @@ public final class ClockTest {
         Checks.law(x, "thin 999; rate 20;");
         C.due("rate 20", x.span(0, 0, true), x.age(105, 1000, 100, 20));
         C.due("b 50 is THIN now", x.span(0, 2, false), RedHands.NONE);
-        C.fails("no SKIN", x, Checks.NSE, () -> x.span(1, 0, true));
-        C.fails("SKIN -1", x, Checks.NSE, () -> x.span(-1, 0, true));
-        C.fails("no LAYER", x, Checks.NSE, () -> x.span(0, 3, true));
-        C.fails("LAYER -1", x, Checks.NSE, () -> x.span(0, -1, false));
+        C.fails("no SKIN", Checks.NSE, () -> x.span(1, 0, true));
+        C.fails("SKIN -1", Checks.NSE, () -> x.span(-1, 0, true));
+        C.fails("no LAYER", Checks.NSE, () -> x.span(0, 3, true));
+        C.fails("LAYER -1", Checks.NSE, () -> x.span(0, -1, false));
     }
 
     /** A PAINT and a SKIN that lies so on it, its LAYERS of b 1000 and these counts a (below 0: a THIN one). */
@@ -108,8 +108,8 @@ public final class ClockTest {
         C.due("TURNED by more", x.sort(0), 2);
         Checks.law(x, "off 50;");
         C.due("by another law", x.sort(0), 4);
-        C.fails("no SKIN", x, Checks.NSE, () -> x.sort(1));
-        C.fails("SKIN -1", x, Checks.NSE, () -> x.sort(-1));
+        C.fails("no SKIN", Checks.NSE, () -> x.sort(1));
+        C.fails("SKIN -1", Checks.NSE, () -> x.sort(-1));
     }
 
     private static void says() {
@@ -123,8 +123,8 @@ public final class ClockTest {
         C.due("UNDER: GREATEST of the outermost", skin(2, 100, 500).says(0), 12);
         C.due("UNDER, the outermost is THIN", skin(2, -1, 100, 500).says(0), 12);
         RedHands x = skin(1, 100);
-        C.fails("no SKIN", x, Checks.NSE, () -> x.says(1));
-        C.fails("SKIN -1", x, Checks.NSE, () -> x.says(-1));
+        C.fails("no SKIN", Checks.NSE, () -> x.says(1));
+        C.fails("SKIN -1", Checks.NSE, () -> x.says(-1));
     }
 
     private static void leak(String what, RedHands x, long upper, long lower) {
@@ -147,8 +147,8 @@ public final class ClockTest {
         leak("four by leak 25", x, 1, 73);
         Checks.law(x, "leak 99;");
         leak("four by leak 99", x, 33, 41);
-        C.fails("no SKIN", x, Checks.NSE, () -> x.leaked(1));
-        C.fails("SKIN -1", x, Checks.NSE, () -> x.leaked(-1));
+        C.fails("no SKIN", Checks.NSE, () -> x.leaked(1));
+        C.fails("SKIN -1", Checks.NSE, () -> x.leaked(-1));
     }
 
     private static void drip() {
@@ -163,9 +163,7 @@ public final class ClockTest {
         Checks.law(x, "off 50;");
         // e is 25, and seed 1 draws 16838, of 51 that leaves 8
         C.due("by half", x.drip(0, 0, 0, 100, 50, 1), 50 - 25 + 8);
-        String before = Checks.shot(x);
         C.due("a 5th", x.drip(0, 10, 1000, 0, 0, 1), RedHands.NONE);
-        C.unchanged("a 5th", x, before);
         x.skin(0, 0, 0, 1);
         // 9899, e 4949, 16838 of 9899 leaves 6939: 11889 is cut
         C.due("no more than 9999", x.drip(1, 0, 0, 9999, 99, 1), 9999);
@@ -177,13 +175,13 @@ public final class ClockTest {
         x.skin(0, 0, 0, 1);
         C.due("one time less", x.drip(2, 9, 2, 99, 1, 5), 0);
         draws();
-        C.fails("no SKIN", x, Checks.NSE, () -> x.drip(3, -1, 0, 0, 0, 0));
-        C.fails("AGE -1", x, Checks.IAE, () -> x.drip(1, -1, 0, 0, 0, 0));
-        C.fails("AGE 401", x, Checks.IAE, () -> x.drip(1, 401, 0, 0, 0, 0));
-        C.fails("b", x, Checks.IAE, () -> x.drip(1, 0, 10000, 0, 0, 0));
-        C.fails("d", x, Checks.IAE, () -> x.drip(1, 0, 0, -1, 0, 0));
-        C.fails("share", x, Checks.IAE, () -> x.drip(1, 0, 0, 0, 100, 0));
-        C.fails("AGE of a full SKIN", x, Checks.IAE, () -> x.drip(0, 401, 0, 0, 0, 0));
+        C.fails("no SKIN", Checks.NSE, () -> x.drip(3, -1, 0, 0, 0, 0));
+        C.fails("AGE -1", Checks.IAE, () -> x.drip(1, -1, 0, 0, 0, 0));
+        C.fails("AGE 401", Checks.IAE, () -> x.drip(1, 401, 0, 0, 0, 0));
+        C.fails("b", Checks.IAE, () -> x.drip(1, 0, 10000, 0, 0, 0));
+        C.fails("d", Checks.IAE, () -> x.drip(1, 0, 0, -1, 0, 0));
+        C.fails("share", Checks.IAE, () -> x.drip(1, 0, 0, 0, 100, 0));
+        C.fails("AGE of a full SKIN", Checks.IAE, () -> x.drip(0, 401, 0, 0, 0, 0));
     }
 
     /** 100 by off 50, drawn by seeds for which x is just at, or just below, another higher half. */
@@ -228,12 +226,12 @@ public final class ClockTest {
         // 20 counts are there at once, by the dirt alone: GREATEST is 0
         C.due("just below the AGE", x.trial(1, 50, 100, 20, 1), 0);
         C.due("AGE 400 of what never comes", x.trial(400, 1000, 0, 0, 7), 7);
-        C.fails("AGE", x, Checks.IAE, () -> x.trial(401, 0, 0, 0, 1));
-        C.fails("AGE -1", x, Checks.IAE, () -> x.trial(-1, 0, 0, 0, 1));
-        C.fails("b", x, Checks.IAE, () -> x.trial(0, -1, 0, 0, 1));
-        C.fails("d", x, Checks.IAE, () -> x.trial(0, 0, 10000, 0, 1));
-        C.fails("share", x, Checks.IAE, () -> x.trial(0, 0, 0, -1, 1));
-        C.fails("n 0", x, Checks.IAE, () -> x.trial(0, 0, 0, 0, 0));
-        C.fails("n 101", x, Checks.IAE, () -> x.trial(0, 0, 0, 0, 101));
+        C.fails("AGE", Checks.IAE, () -> x.trial(401, 0, 0, 0, 1));
+        C.fails("AGE -1", Checks.IAE, () -> x.trial(-1, 0, 0, 0, 1));
+        C.fails("b", Checks.IAE, () -> x.trial(0, -1, 0, 0, 1));
+        C.fails("d", Checks.IAE, () -> x.trial(0, 0, 10000, 0, 1));
+        C.fails("share", Checks.IAE, () -> x.trial(0, 0, 0, -1, 1));
+        C.fails("n 0", Checks.IAE, () -> x.trial(0, 0, 0, 0, 0));
+        C.fails("n 101", Checks.IAE, () -> x.trial(0, 0, 0, 0, 101));
     }
 }

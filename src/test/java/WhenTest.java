@@ -50,9 +50,9 @@ public final class WhenTest {
         timesOf("one", x, 0, 1, 30, 30);
         Checks.aged(x, OVER, 0, 31);
         timesOf("a CLASH", x, 0, 0, RedHands.NONE, RedHands.NONE);
-        C.fails("no PAINT", x, Checks.NSE, () -> x.times(2, 3));
-        C.fails("what 3", x, Checks.IAE, () -> x.times(0, 3));
-        C.fails("what -1", x, Checks.IAE, () -> x.times(0, -1));
+        C.fails("no PAINT", Checks.NSE, () -> x.times(2, 3));
+        C.fails("what 3", Checks.IAE, () -> x.times(0, 3));
+        C.fails("what -1", Checks.IAE, () -> x.times(0, -1));
     }
 
     private static void who() {
@@ -81,9 +81,9 @@ public final class WhenTest {
         Checks.aged(x, OVER, 0, 302);
         C.due("too late for all", x.who(0, 0), false);
         C.fraction("too late for all", x, 0, 0);
-        C.fails("no PAINT", x, Checks.NSE, () -> x.who(3, 9));
-        C.fails("people 6", x, Checks.IAE, () -> x.who(0, 6));
-        C.fails("people -1", x, Checks.IAE, () -> x.who(0, -1));
+        C.fails("no PAINT", Checks.NSE, () -> x.who(3, 9));
+        C.fails("people 6", Checks.IAE, () -> x.who(0, 6));
+        C.fails("people -1", Checks.IAE, () -> x.who(0, -1));
     }
 
     private static void alone() {
@@ -100,9 +100,9 @@ public final class WhenTest {
         C.due("within bounds", x.alone(0, 0), 1);
         Checks.aged(x, UNDER, 0, 7);
         C.due("up to MOST", x.alone(0, 5), 1);
-        C.fails("no PAINT", x, Checks.NSE, () -> x.alone(2, 9));
-        C.fails("people 6", x, Checks.IAE, () -> x.alone(0, 6));
-        C.fails("people -1", x, Checks.IAE, () -> x.alone(0, -1));
+        C.fails("no PAINT", Checks.NSE, () -> x.alone(2, 9));
+        C.fails("people 6", Checks.IAE, () -> x.alone(0, 6));
+        C.fails("people -1", Checks.IAE, () -> x.alone(0, -1));
     }
 
     private static void spread() {
@@ -123,8 +123,8 @@ public final class WhenTest {
         }
         C.due("all CAVES", y.spread(0), 6);
         C.due("all CAVES, the first", y.first(0), 0);
-        C.fails("WHAT 10", x, Checks.IAE, () -> x.spread(10));
-        C.fails("WHAT -1", x, Checks.IAE, () -> x.spread(-1));
+        C.fails("WHAT 10", Checks.IAE, () -> x.spread(10));
+        C.fails("WHAT -1", Checks.IAE, () -> x.spread(-1));
     }
 
     private static void first() {
@@ -146,8 +146,8 @@ public final class WhenTest {
         C.due("by what lies over it", x.first(7), 1);
         C.due("another WHAT", x.first(6), 4);
         C.due("WHAT 9", x.first(9), RedHands.NONE);
-        C.fails("WHAT 10", x, Checks.IAE, () -> x.first(10));
-        C.fails("WHAT -1", x, Checks.IAE, () -> x.first(-1));
+        C.fails("WHAT 10", Checks.IAE, () -> x.first(10));
+        C.fails("WHAT -1", Checks.IAE, () -> x.first(-1));
     }
 
     private static void planOf(String what, RedHands x, int grains, int set, int paints, int taken) {
@@ -183,10 +183,10 @@ public final class WhenTest {
         x.layer(2, 1, 1, 1);
         planOf("a SKIN that has LAYERS, though THIN", x, 7, 8, 2, 4);
         planOf("its PAINT needs no other", x, 999, 24, 3, 12);
-        C.fails("GRAINS -1", x, Checks.IAE, () -> x.plan(-1, 0));
-        C.fails("GRAINS 1000", x, Checks.IAE, () -> x.plan(1000, 0));
-        C.fails("what 3", x, Checks.IAE, () -> x.plan(0, 3));
-        C.fails("what -1", x, Checks.IAE, () -> x.plan(0, -1));
+        C.fails("GRAINS -1", Checks.IAE, () -> x.plan(-1, 0));
+        C.fails("GRAINS 1000", Checks.IAE, () -> x.plan(1000, 0));
+        C.fails("what 3", Checks.IAE, () -> x.plan(0, 3));
+        C.fails("what -1", Checks.IAE, () -> x.plan(0, -1));
     }
 
     /** Only the first 12 of them are looked at; of like sets it is the least as bits. */
@@ -247,8 +247,8 @@ public final class WhenTest {
         row("all thirty", y, 30, all);
         C.due("i -2", x.follow(999, -2), RedHands.NONE);
         C.due("i far", x.follow(999, Integer.MAX_VALUE), RedHands.NONE);
-        C.fails("GRAINS -1", x, Checks.IAE, () -> x.follow(-1, 0));
-        C.fails("GRAINS 1000", x, Checks.IAE, () -> x.follow(1000, RedHands.NONE));
+        C.fails("GRAINS -1", Checks.IAE, () -> x.follow(-1, 0));
+        C.fails("GRAINS 1000", Checks.IAE, () -> x.follow(1000, RedHands.NONE));
     }
 
     private static void rule(RedHands x, String rule, int... skins) {
@@ -334,8 +334,8 @@ public final class WhenTest {
         }
         C.due("below 0, as the plan is of 12", x.behind(999) < 0, true);
         C.due("four more than the plan", x.behind(999), -4);
-        C.fails("GRAINS -1", x, Checks.IAE, () -> x.behind(-1));
-        C.fails("GRAINS 1000", x, Checks.IAE, () -> x.behind(1000));
+        C.fails("GRAINS -1", Checks.IAE, () -> x.behind(-1));
+        C.fails("GRAINS 1000", Checks.IAE, () -> x.behind(1000));
     }
 
     private static void say() {
@@ -388,7 +388,7 @@ public final class WhenTest {
         C.due("a beast without TIMES", x.say(10), 7);
         Checks.stories(x, "people 3 in 0 to 400;beast 1 in 9 to 9;");
         C.due("a beast of one TIME", x.say(10), 4);
-        C.fails("no PAINT", x, Checks.NSE, () -> x.say(11));
-        C.fails("PAINT -1", x, Checks.NSE, () -> x.say(-1));
+        C.fails("no PAINT", Checks.NSE, () -> x.say(11));
+        C.fails("PAINT -1", Checks.NSE, () -> x.say(-1));
     }
 }
