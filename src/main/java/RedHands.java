@@ -554,16 +554,20 @@ public final class RedHands {
 
     public void image(int i) throws NoSuchElementException {
         askImage(i);
-        images[i].copyFrom(wall);
-        made[i] = true;
+        Wall image = images[i];
+        if (image != null) {
+            image.copyFrom(wall);
+            made[i] = true;
+        }
     }
 
     public void restore(int i) throws NoSuchElementException, IllegalStateException {
         askImage(i);
-        if (!made[i]) {
+        Wall image = images[i];
+        if (image == null || !made[i]) {
             throw new IllegalStateException("no such image was made");
         }
-        wall.copyFrom(images[i]);
+        wall.copyFrom(image);
     }
 
     public int count(int what) {

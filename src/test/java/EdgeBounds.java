@@ -87,6 +87,17 @@ final class EdgeBounds {
         for (int i = 0; i < 30; i++) {
             bounds(r, i, 13, 39);
         }
+        // of thirty SKINS the last ones
+        discs(r, 1);
+        r.does(EdgeTest.times(28, "skin 0 0 0 1"));
+        r.is("skin 0 1 0 1", 28);
+        r.is("skin 0 2 0 1", 29);
+        bounds(r, 0, 0, 400);
+        r.does(EdgeTest.layer(28, 30), EdgeTest.layer(29, 90));
+        bounds(r, 0, 30, 90);
+        r.is("rests 0", 2);
+        r.makes("older 0 30", 9, 10);
+        r.makes("older 0 31", 0, 1);
         // the numbers go the other way along the wall
         discs(r, 30);
         for (int i = 0; i < 29; i++) {

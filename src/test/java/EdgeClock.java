@@ -1,3 +1,6 @@
+import java.util.ArrayList;
+import java.util.List;
+
 /** Promises 13 to 19, and the terms THE CLOCK, THIN, SORT, LEAKED, SAYS, DRIP, TRIAL. */
 final class EdgeClock {
     private static final int NONE = Runs.NONE;
@@ -110,6 +113,8 @@ final class EdgeClock {
         r.takes("law", "thin 999;", 1);
         spans(r, 0, NONE, NONE);
 
+        otherLaws(r);
+
         r.about(14, "Of a LAYER LEAST, or GREATEST (most); NONE: it is THIN.");
         r.does("skin 0 0 0 1", "layer 0 100 1000 100", "layer 0 100 49 0");
         r.still(4, "span 0 0 false");
@@ -124,6 +129,31 @@ final class EdgeClock {
         r.anew("skin 0 0 0 1", "layer 0 1 1 1", "layer 0 1 1 1", "layer 0 1 1 1", "layer 0 1 1 1", "skin 0 0 0 1", "layer 1 1 1 1");
         r.still(NONE, "span 0 3 true");
         r.still(Runs.NSE, "span 0 4 true", "span 1 1 true", "span 2 0 true");
+    }
+
+    /** LAYERS are of other ages by another law, as if they had come when it was the law already. */
+    private static void otherLaws(Runs r) {
+        List<String> layers = new ArrayList<>(List.of("paint 1 0 0"));
+        for (int k = 0; k < 30; k++) {
+            layers.add("skin 0 " + k % 3 + " 0 1");
+            layers.add("layer " + k + " " + (200 + k) + " 1000 " + 90 * k);
+        }
+        for (int i = 0; i < 3; i++) {
+            layers.add("layer 29 " + (300 + i) + " " + (60 - i) + "0 100");
+        }
+        for (String law : List.of("rate 11;", "dirt 0 to 60;", "dirt 20 to 99;", "off 30;", "thin 600;", "thin 590;", "leak 11;", "near 5;",
+                "rate 99;off 50;thin 999;", "")) {
+            List<String> read = new ArrayList<>(Runs.fed(law));
+            read.add("law " + law.length());
+            r.alike("'" + law + "' ahead or behind", joined(read, layers), joined(layers, read), true);
+            r.alike("'" + law + "' and back", layers, joined(joined(layers, read), List.of("law 0")), true);
+        }
+    }
+
+    private static List<String> joined(List<String> some, List<String> more) {
+        List<String> all = new ArrayList<>(some);
+        all.addAll(more);
+        return all;
     }
 
     private static void spans(Runs r, int layer, int least, int greatest) {
@@ -310,8 +340,9 @@ final class EdgeClock {
 
         r.about(0, "A DRIP: AGE (0 to 400), b, d, a share (0 to 99), a DRAW: x (an int, a seed) becomes 1103515245 x + 12345; it is x >>> 16. g as in THE CLOCK from 10 d s on, grown AGE times; a is g by 1000, and e being a times off by 100: a less e, and DRAW mod (2 e + 1), 0 to 9999.");
         // 99 by off 50: e is 49, the DRAW mod 99
-        int[] seeds = {0, 1, -1, Integer.MAX_VALUE, Integer.MIN_VALUE, 2, 5};
-        int[] draws = {0, 16838, 48697, 15929, 32768, 33676, 18655};
+        // of 42627 the lower half of x is 0, of 47902 it is the greatest there is
+        int[] seeds = {0, 1, -1, Integer.MAX_VALUE, Integer.MIN_VALUE, 2, 5, 42627, 47902};
+        int[] draws = {0, 16838, 48697, 15929, 32768, 33676, 18655, 16213, 36998};
         for (int i = 0; i < seeds.length; i++) {
             if (i % 4 == 0) {
                 r.anew("skin 0 0 0 1");
@@ -378,6 +409,17 @@ final class EdgeClock {
         r.is("trial 400 9999 9999 1 7", 0);
         r.is("trial 1 9999 9999 1 7", 0);
         r.is("trial 0 9999 9999 1 7", 7);
+        trialOfDirt(r);
+    }
+
+    private static void trialOfDirt(Runs r) {
+        // 10 are there at first, 10.4 after one time: both are a count of 10, whose LEAST and GREATEST are 0
+        r.takes("law", "off 0;dirt 10 to 10;", 2);
+        r.is("trial 0 50 100 10 9", 9);
+        r.is("trial 1 50 100 10 9", 0);
+        // by a share of 9 there are 9, 9.41, 9.815, 10.216: GREATEST is 3
+        r.takes("law", "off 0;dirt 9 to 10;", 2);
+        r.is("trial 1 50 100 10 9", 9);
     }
 
     private static void trialBy(Runs r, String law, int within) {

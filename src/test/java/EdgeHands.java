@@ -27,6 +27,9 @@ final class EdgeHands {
         r.is("told 3 99 99 99 99 99", 40);
         r.is("count 3", 40);
         r.still(NONE, "told 3 99 99 99 99 99", "told 0 1 1 1 1 1");
+        r.does("fingers 0 99 99 99 99 99");
+        r.is("like 0 -1", 1);
+        r.makes("whose 0 3", 1, 1);
         r.still(Runs.IAE, "told 4 1 1 1 1 1", "told 0 1 1 1 1 0");
 
         r.about(0, "TOLD HANDS, at most 40: a SORT (0 to 3), FIVE lengths (1 to 99).");
@@ -119,6 +122,11 @@ final class EdgeHands {
         r.makes("whose 0 3", 3, 7);
         r.makes("whose 0 0", 0, 1);
         r.makes("whose 0 2", 0, 0);
+        // SORT 0: 2 of 3, SORT 2: 1 of 2
+        r.anew("paint 0 0 0", "fingers 0 50 50 50 50 50", "told 0 50 50 50 50 50", "told 0 50 50 50 50 50", "told 0 1 1 1 1 1",
+                "told 2 50 50 50 50 50", "told 2 1 1 1 1 1");
+        r.makes("whose 0 0", 4, 7);
+        r.makes("whose 0 2", 3, 7);
         // ten of each, of which 1, 2, 3 and 4 are LIKE it
         r.anew("paint 0 0 0", "fingers 0 50 50 50 50 50");
         for (int i = 0; i < 40; i++) {
@@ -259,6 +267,9 @@ final class EdgeHands {
         r.makes("bent 0 4", 0, 1);
         r.anew("paint 0 0 0");
         r.makes("bent 0 0", 0, 0);
+        // the least DUE that there is
+        r.does("told 0 1 1 1 1 1");
+        r.makes("bent 0 0", 1, 2);
     }
 
     private static void weights(Runs r) {

@@ -94,6 +94,7 @@ final class EdgeTexts {
             r.does(Runs.fed(good[i]).toArray(new String[0]));
             r.is(how + " " + 20 * feeds.size(), 1);
         }
+        firstBytes(r);
         r.about(9, "IllegalArgumentException: n is below 0 or above what it has.");
         r.still(Runs.IAE, "law -1", "law 1");
         r.is("law 0", 0);
@@ -105,6 +106,35 @@ final class EdgeTexts {
         }
         r.still(Runs.IAE, "law 401");
         r.is("law 400", 0);
+    }
+
+    /** Where the first n bytes end within a TOKEN, what is behind them is no part of it. */
+    private static void firstBytes(Runs r) {
+        r.about(9, "The first n bytes of the tape (which is empty then) are THE LAW");
+        List<String> feeds = Runs.fed("rate 12;leak 345;");
+        int[] due = {0, -12, -12, -12, -12, -12, -12, -12, 1, -12, -12, -12, -12, -12, -12, -12, -13, -13};
+        int[] places = {NONE, 0, 0, 0, 4, 5, 6, 7, NONE, 8, 8, 8, 12, 13, 14, 15, 13, 13};
+        for (int n = 0; n < due.length; n++) {
+            r.anew(feeds.toArray(new String[0]));
+            r.is("law " + n, due[n]);
+            r.is("fault 1", places[n]);
+            r.is("count 6", 0);
+        }
+        // what an earlier, longer text left is no part of a later one
+        r.anew();
+        r.takes("law", "off 33;off 33;off 33;off 33;off 33;", 5);
+        r.does(Runs.fed("off 3").get(0));
+        r.is("law 5", -12);
+        r.is("fault 1", 5);
+        // a TOKEN, or a part of one, that ends with the tape
+        String[] last = {"rate", "rat", "o", "zz", "rate 5", "rate 55", "rate 555", "rate 5;", "rate 5555", "thin 999", "("};
+        int[] kinds = {2, 2, 2, 2, 2, 2, 3, 0, 1, 2, 2};
+        int[] at = {400, 397, 399, 398, 400, 400, 397, NONE, 396, 400, 399};
+        for (int i = 0; i < last.length; i++) {
+            r.anew();
+            r.reads("law", " ".repeat(400 - last[i].length()) + last[i], kinds[i] == 0 ? 1 : -10 - kinds[i]);
+            r.is("fault 1", at[i]);
+        }
     }
 
     private static void law(Runs r) {
@@ -187,6 +217,22 @@ final class EdgeTexts {
         r.refuses("scrapers", "scrape over if cave 10;", 3, 20);
         r.refuses("scrapers", EdgeTest.again("scrape over;", 12) + "scrape", 4, 144);
         r.refuses("scrapers", EdgeTest.again("scrape under;", 12) + "\nscrape over;", 4, 157);
+
+        // the longest TESTS, again and again: each text is read anew
+        r.anew("paint 0 0 0", "skin 0 1 0 1");
+        String longest = "scrape over if " + "hand and ".repeat(41) + "hand;";
+        for (int i = 0; i < 8; i++) {
+            r.takes("scrapers", longest, 1);
+        }
+        r.is("follow 1 0", 0);
+        r.takes("scrapers", "scrape over if not hand or disc;", 1);
+        r.is("follow 1 0", NONE);
+        r.takes("scrapers", "scrape over if not disc and hand;", 1);
+        r.is("follow 1 0", 0);
+        r.takes("scrapers", "scrape over if " + "disc or ".repeat(46) + "disc;", 1);
+        r.is("follow 1 0", NONE);
+        r.takes("scrapers", "scrape over if " + "disc or ".repeat(46) + "hand;", 1);
+        r.is("follow 1 0", 0);
 
         r.about(0, "RULE: scrape KIND [ if TEST ].   KIND: over | under | beside.   TEST: PART { or PART }.   PART: FACT { and FACT }.   FACT: not FACT | ( TEST ) | cheap N | cave N | hand | disc | beast | sign | bare | open.");
         r.does(EdgeTest.untaped());

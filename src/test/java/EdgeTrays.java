@@ -322,7 +322,7 @@ final class EdgeTrays {
         r.alike("the one and the other", another(), joined(both, List.of("restore 1", "restore 2")), true);
         r.alike("a bare wall", List.of(), joined(both, List.of("restore 0")), true);
         // by another law LAYERS are of other ages, those that came back too
-        List<String> law = read("law", "rate 30;dirt 1 to 90;");
+        List<String> law = read("law", "rate 1;dirt 1 to 90;");
         r.alike("the one by another law", joined(one(), law), joined(joined(both, List.of("restore 1")), law), true);
         r.alike("the other by another law", joined(another(), law), joined(joined(both, List.of("restore 1", "restore 2")), law), true);
     }

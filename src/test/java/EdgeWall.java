@@ -101,6 +101,13 @@ final class EdgeWall {
         for (int i = 0; i < 5; i++) {
             r.is("of 0 " + (3 + i), i + 1);
         }
+        // of the last PAINT that can come, too
+        r.anew(EdgeTest.times(30, "paint 0 0 0"));
+        r.does("fingers 29 6 7 8 9 10", "fingers 28 1 2 3 4 5");
+        for (int i = 0; i < 5; i++) {
+            r.is("of 28 " + (3 + i), i + 1);
+            r.is("of 29 " + (3 + i), i + 6);
+        }
         // a finger that is not there hinders nothing: a TOLD HAND differs from it by more than near
         r.anew("paint 0 0 0", "told 0 99 99 99 99 99");
         r.is("like 0 -1", 1);

@@ -171,6 +171,12 @@ final class EdgeWhen {
         }
         r.is("spread 7", 6);
         r.is("spread 6", 1);
+        // the first and the last PAINT of thirty
+        r.anew("paint 3 2 8");
+        r.is("spread 8", 1);
+        r.does(EdgeTest.times(28, "paint 1 3 8"));
+        r.does("paint 3 4 8");
+        r.is("spread 8", 2);
     }
 
     private static void first(Runs r) {
@@ -194,6 +200,16 @@ final class EdgeWhen {
         r.is("first 7", 1);
         r.does("over 4 3");
         r.is("first 7", 3);
+        // the first and the last PAINT of thirty
+        wall(r, "paint 3 0 8");
+        r.is("first 8", 0);
+        r.does(EdgeTest.times(28, "paint 1 0 8"));
+        r.does("paint 3 0 8");
+        r.is("first 8", 0);
+        aged(r, 0, OVER, 29, 1);
+        r.is("first 8", 29);
+        r.does("over 29 0");
+        r.is("first 8", 0);
     }
 
     private static void planOf(Runs r, int grains, int set, int paints, int taken) {
@@ -269,6 +285,19 @@ final class EdgeWhen {
         wall(r, "paint 1 0 0", "paint 1 0 0", "paint 1 0 0", "paint 1 0 0", "skin 0 1 0 1", "skin 0 1 1 3", "skin 0 1 2 3", "skin 0 1 3 1");
         planOf(r, 4, 9, 2, 2);
         planOf(r, 5, 11, 3, 5);
+        // as SKINS get LAYERS there are fewer to choose from
+        wall(r, "paint 1 0 0", "paint 1 0 0", "paint 1 0 0", "skin 0 1 0 5", "skin 0 1 1 6", "skin 0 1 2 7");
+        planOf(r, 999, 7, 3, 18);
+        r.does("layer 0 0 0 0");
+        planOf(r, 999, 6, 3, 13);
+        planOf(r, 6, 2, 2, 6);
+        r.does("layer 2 0 0 0");
+        planOf(r, 999, 2, 3, 6);
+        planOf(r, 5, 0, 2, 0);
+        // PAINTS next to those that have a SKIN with LAYERS
+        wall(r, "paint 1 0 0", "paint 1 0 0", "paint 1 0 0", "skin 0 1 1 1", "layer 0 0 0 0", "skin 0 1 0 2", "skin 0 1 2 3");
+        planOf(r, 2, 2, 2, 2);
+        planOf(r, 5, 6, 3, 5);
         // the SKIN of the highest number: a set of the highest bit
         r.anew("paint 1 0 0");
         r.does(EdgeTest.times(29, "skin 0 0 0 1"));
@@ -402,6 +431,13 @@ final class EdgeWhen {
         row(r, 999, 0);
         aged(r, 5, UNDER, 0, 399);
         row(r, 999);
+        // the last of thirty PAINTS
+        wall(r, EdgeTest.times(30, "paint 1 0 0"));
+        r.does("skin 0 1 29 1", "skin 0 1 28 1");
+        scrapers(r, "scrape over if open;");
+        row(r, 999, 0, 1);
+        aged(r, 2, UNDER, 29, 399);
+        row(r, 999, 1);
     }
 
     private static void joined(Runs r) {

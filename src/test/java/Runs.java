@@ -24,6 +24,7 @@ final class Runs {
     static final String IOB = "throws.IndexOutOfBoundsException";
     static final int NONE = -1;
 
+    private static final List<String> THROWN = List.of(NSE, ISE, IAE, IOB);
     private static final int MOST_CALLS = 512;
     // of calls that look at one wall; by three, as a FRACTION is looked at by three calls
     private static final int LOOKS = 240;
@@ -356,7 +357,11 @@ final class Runs {
         try {
             return String.valueOf(method.invoke(x, Arrays.copyOfRange(told, 1, told.length)));
         } catch (InvocationTargetException e) {
-            return "throws." + e.getCause().getClass().getSimpleName();
+            String thrown = "throws." + e.getCause().getClass().getSimpleName();
+            if (!THROWN.contains(thrown)) {
+                tell(call, thrown, "one of " + THROWN);
+            }
+            return thrown;
         } catch (IllegalAccessException e) {
             throw new IllegalStateException(e);
         }
