@@ -21,7 +21,7 @@ final class EdgeClock {
     }
 
     private static void clock(Runs r) {
-        r.about(0, "as long as g is below 1000 a, and at most 400 times: it grows by (1000 b less g) times rate by 1000 (cut; by 0, if that is below 0): AGE is how many times that was (400 also, if g is below 1000 a still).");
+        r.about(0, "THE CLOCK for counts a, b, d by a share s: g is 10 d s at first; as long as g is below 1000 a, and at most 400 times: it grows by (1000 b less g) times rate by 1000 (cut; by 0, if that is below 0): AGE is how many times that was (400 also, if g is below 1000 a still).");
         // by b 1000: 0, 10000, 19900, 29701
         r.is("age 0 1000 0 0", 0);
         r.is("age 1 1000 0 0", 1);

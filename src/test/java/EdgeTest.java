@@ -14,7 +14,27 @@ public final class EdgeTest {
         EdgeHands.run(r);
         EdgeWhen.run(r);
         EdgeTrays.run(r);
+        throwers(r);
         r.end("EdgeTest");
+    }
+
+    /** Each call that throws, once for each exception that it may throw. */
+    private static void throwers(Runs r) {
+        r.about(0, "A call that throws changes nothing.");
+        r.does(rich());
+        r.still(Runs.NSE, "fingers 7 1 1 1 1 1", "over 7 0", "skin 0 1 7 1", "layer 5 1 1 1", "of 7 0", "span 5 0 true", "sort 5",
+                "says 5", "leaked 5", "drip 5 1 1 1 1 1", "bound 7 true", "ring 7", "above 0 7", "rests 7", "older 7 1", "like 7 0",
+                "whose 7 0", "ringed 7 0", "due 7 0", "stumps 7", "bent 7 0", "weights true 4", "times 7 0", "who 7 0", "alone 7 0",
+                "say 7", "tray 4 0 0", "write 4 0 0", "pour 5 1", "image 3", "restore 3");
+        r.still(Runs.ISE, "fingers 1 1 1 1 1 1", "like 1 0", "whose 1 0", "ringed 1 0", "due 1 0", "stumps 1", "bent 1 0",
+                "weights true 2", "write 2 0 0", "pour 0 2", "restore 2");
+        r.still(Runs.IAE, "paint 4 0 0", "fingers 0 100 1 1 1 1", "over 0 0", "skin 0 3 0 1", "layer 0 10000 1 1", "of 0 9", "law 21",
+                "stories 21", "scrapers 21", "age 10000 0 0 0", "drip 0 401 1 1 1 1", "trial 401 1 1 1 1", "older 0 0", "many 0",
+                "told 4 1 1 1 1 1", "like 0 5", "whose 0 4", "ringed 0 4", "due 0 5", "bent 0 5", "times 0 3", "who 0 6", "alone 0 6",
+                "spread 10", "first 10", "plan 1000 0", "follow 1000 0", "behind 1000", "tray 0 4 0");
+        r.still(Runs.IOB, "write 0 5 0", "pour 0 3");
+        r.does("write 1 0 -1");
+        r.still(Runs.IAE, "pour 0 1");
     }
 
     /** Calls after which there is something of all that a call could change. PAINT 0 is a hand, 1 none. */

@@ -59,8 +59,15 @@ final class EdgeTexts {
         String longest = EdgeTest.again(" ", 392) + "rate 31;";
         r.takes("law", longest, 1);
         r.is("count 7", 31);
+        r.about(0, "STORIES are a TEXT likewise: { LINE ; }");
+        r.is("count 5", 0);
         r.takes("stories", EdgeTest.again("\n", 381) + "people 1 in 2 to 3;", 1);
+        r.is("count 5", 1);
+        r.about(0, "SCRAPERS are a TEXT likewise (empty at first): { RULE ; }");
+        r.is("count 14", 0);
+        r.is("follow 999 -1", 0);
         r.takes("scrapers", EdgeTest.again(" ", 388) + "scrape over;", 1);
+        r.is("count 14", 1);
     }
 
     /** What law(), stories() and scrapers() have in common. */

@@ -68,7 +68,7 @@ final class EdgeWall {
         r.does("paint 0 0 0");
         r.still(Runs.IAE, "paint 4 0 0", "paint 0 6 0", "paint 0 0 10");
 
-        r.about(0, "a KIND (0 hand, 1 disc, 2 beast, 3 sign), a CAVE (0 to 5), a WHAT (0 to 9: a beast's sort, a sign's).");
+        r.about(0, "PAINTS, at most 30, numbered as they come: a KIND (0 hand, 1 disc, 2 beast, 3 sign), a CAVE (0 to 5), a WHAT (0 to 9: a beast's sort, a sign's).");
         r.does(EdgeTest.rich());
         r.still(Runs.IAE, "paint -1 0 0", "paint 4 0 0", "paint -2147483648 0 0", "paint 2147483647 0 0");
         r.still(Runs.IAE, "paint 0 -1 0", "paint 0 6 0", "paint 0 -2147483648 0", "paint 0 2147483647 0");
@@ -81,6 +81,10 @@ final class EdgeWall {
         // no other KIND is a hand
         r.does("paint 1 0 0", "paint 2 0 0", "fingers 7 1 1 1 1 1");
         r.still(Runs.ISE, "stumps 8", "stumps 9", "stumps 10");
+        for (int i = 11; i < 30; i++) {
+            r.is("paint 3 5 9", i);
+        }
+        r.still(NONE, "paint 3 5 9");
     }
 
     private static void fingers(Runs r) {

@@ -11,6 +11,8 @@ import java.util.HashMap;
 import java.util.List;
 import java.util.Map;
 import java.util.TreeSet;
+import java.util.regex.Matcher;
+import java.util.regex.Pattern;
 
 /**
  * Runs of calls on new walls, each run about one sentence of the document. A call is told as a text ("over 1 0"), so
@@ -33,6 +35,7 @@ final class Runs {
     private final Map<String, Method> methods = new HashMap<>();
     private final Map<String, Object[]> arguments = new HashMap<>();
     private final TreeSet<Integer> promises = new TreeSet<>();
+    private final Map<String, TreeSet<String>> throwers = new HashMap<>();
     private final String document;
     private final List<String> calls = new ArrayList<>();
     private RedHands wall = new RedHands();
@@ -48,7 +51,12 @@ final class Runs {
                 methods.put(m.getName(), m);
             }
         }
-        document = plain(Files.readString(page, StandardCharsets.UTF_8));
+        if (Files.isReadable(page)) {
+            document = plain(Files.readString(page, StandardCharsets.UTF_8));
+        } else {
+            System.out.println("no document at " + page + ": its sentences are not looked up");
+            document = null;
+        }
     }
 
     private static String plain(String text) {
@@ -62,7 +70,9 @@ final class Runs {
         String shown = sentence.length() > 90 ? sentence.substring(0, 90) + ".." : sentence;
         about = (promise == 0 ? "terms" : "promise " + promise) + ", '" + shown + "'";
         promises.add(promise);
-        tell("stands in the document", sectionOf(promise).contains(plain(sentence)), true);
+        if (document != null) {
+            tell("stands in the document", sectionOf(promise).contains(plain(sentence)), true);
+        }
         anew();
     }
 
@@ -361,6 +371,7 @@ final class Runs {
             if (!THROWN.contains(thrown)) {
                 tell(call, thrown, "one of " + THROWN);
             }
+            throwers.computeIfAbsent(method.getName(), name -> new TreeSet<>()).add(thrown.substring("throws.".length()));
             return thrown;
         } catch (IllegalAccessException e) {
             throw new IllegalStateException(e);
@@ -387,7 +398,26 @@ final class Runs {
         return told;
     }
 
+    /** What each call threw is just what the document's face says of it. */
+    private void throwersAreAll() {
+        about = "the public face";
+        Matcher m = Pattern.compile("public \\w+ (\\w+)\\([^)]*\\)( throws ([\\w, ]+))?;").matcher(document);
+        int found = 0;
+        while (m.find()) {
+            TreeSet<String> due = new TreeSet<>();
+            if (m.group(3) != null) {
+                due.addAll(Arrays.asList(m.group(3).split(", ")));
+            }
+            tell(m.group(1) + " throws", throwers.getOrDefault(m.group(1), new TreeSet<>()), due);
+            found++;
+        }
+        tell("calls of the face", found, methods.size());
+    }
+
     void end(String name) {
+        if (document != null) {
+            throwersAreAll();
+        }
         for (int n = 1; n <= PROMISES; n++) {
             about = "promise " + n;
             tell("has a run", promises.contains(n), true);
