@@ -12,6 +12,7 @@ public final class RedHands {
     private static final int MOST_BYTES = 400;
     private static final int MOST_LINES = 12;
     private static final int MOST_NESTED = 8;
+    private static final int MOST_DIGITS = 3;
     private static final int MOST_GRAINS = 999;
     private static final int MOST_COUNT = 9999;
     private static final int MOST_AGE = 400;
@@ -1474,31 +1475,27 @@ public final class RedHands {
 
         private void readFact(Text text, int depth) {
             boolean not = text.isWord(WORD_NOT);
-            if (!not && !text.isSign('(')) {
-                readPlainFact(text);
-            } else if (depth >= MOST_NESTED) {
+            boolean opens = not || text.isSign('(');
+            if (opens && depth >= MOST_NESTED) {
                 text.fail(FAULT_NESTED);
-            } else {
+            } else if (not) {
                 text.advance();
-                if (not) {
-                    readFact(text, depth + 1);
-                    keepStep(WORD_NOT, 0);
-                } else {
-                    readTest(text, depth + 1);
-                    text.needSign(')');
+                readFact(text, depth + 1);
+                keepStep(WORD_NOT, 0);
+            } else if (opens) {
+                text.advance();
+                readTest(text, depth + 1);
+                text.needSign(')');
+            } else {
+                int word = text.wordAmong(WORD_CHEAP, WORD_BEAST);
+                int n = 0;
+                if (word == WORD_CHEAP) {
+                    n = text.number(1, 99);
+                } else if (word == WORD_CAVE) {
+                    n = text.number(0, CAVES - 1);
                 }
+                keepStep(word, n);
             }
-        }
-
-        private void readPlainFact(Text text) {
-            int word = text.wordAmong(WORD_CHEAP, WORD_BEAST);
-            int n = 0;
-            if (word == WORD_CHEAP) {
-                n = text.number(1, 99);
-            } else if (word == WORD_CAVE) {
-                n = text.number(0, CAVES - 1);
-            }
-            keepStep(word, n);
         }
 
         private void keepStep(int word, int n) {
@@ -1591,7 +1588,11 @@ public final class RedHands {
                 token = TOKEN_WORD;
                 value = wordNumber();
             } else if (isDigit(tape[start])) {
-                readNumber();
+                while (at < end && isDigit(tape[at])) {
+                    at++;
+                }
+                token = at - start <= MOST_DIGITS ? TOKEN_NUMBER : TOKEN_BAD;
+                value = decimal();
             } else {
                 char c = tape[start];
                 at++;
@@ -1618,13 +1619,12 @@ public final class RedHands {
             return NONE;
         }
 
-        private void readNumber() {
-            value = 0;
-            while (at < end && isDigit(tape[at])) {
-                value = at - start < 3 ? 10 * value + tape[at] - '0' : value;
-                at++;
+        private int decimal() {
+            int n = 0;
+            for (int i = start; i < at && i < start + MOST_DIGITS; i++) {
+                n = 10 * n + tape[i] - '0';
             }
-            token = at - start <= 3 ? TOKEN_NUMBER : TOKEN_BAD;
+            return n;
         }
 
         private static boolean isLetter(char c) {
@@ -1946,24 +1946,18 @@ public final class RedHands {
 
         private boolean isFact(Wall wall, int word, int n, int skin) {
             Skins skins = wall.skins;
-            if (word == WORD_CHEAP) {
-                return skins.grains[skin] <= n;
-            }
-            if (word == WORD_CAVE) {
-                return skins.cave[skin] == n;
-            }
-            return skins.touches(skin) && isPaintFact(wall, word, skins.paintOf[skin]);
-        }
-
-        private boolean isPaintFact(Wall wall, int word, int paint) {
+            boolean touches = skins.touches(skin);
+            int paint = skins.paintOf[skin];
             int kind = wall.paints.kind[paint];
             switch (word) {
-                case WORD_HAND: return kind == KIND_HAND;
-                case WORD_DISC: return kind == KIND_DISC;
-                case WORD_BEAST: return kind == KIND_BEAST;
-                case WORD_SIGN: return kind == KIND_SIGN;
-                case WORD_BARE: return !isIn(reached, paint);
-                case WORD_OPEN: return isIn(openPaints, paint);
+                case WORD_CHEAP: return skins.grains[skin] <= n;
+                case WORD_CAVE: return skins.cave[skin] == n;
+                case WORD_HAND: return touches && kind == KIND_HAND;
+                case WORD_DISC: return touches && kind == KIND_DISC;
+                case WORD_BEAST: return touches && kind == KIND_BEAST;
+                case WORD_SIGN: return touches && kind == KIND_SIGN;
+                case WORD_BARE: return touches && !isIn(reached, paint);
+                case WORD_OPEN: return touches && isIn(openPaints, paint);
                 default: return false;
             }
         }
